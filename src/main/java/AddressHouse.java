@@ -6,7 +6,9 @@ public final class AddressHouse {
 
     private static final int TAPE_ROOM = 6000;
     private static final int OUT_ROOM = 65536;
-    private static final int BODY_ROOM = 60000;
+    private static final int BODY_LIMIT = 60000;
+    /** Some bytes more than a body may have, for what is written and then taken back. */
+    private static final int BODY_ROOM = 60100;
     private static final int WIRES = 4;
 
     private final Row tape;
@@ -80,9 +82,34 @@ public final class AddressHouse {
         int given = 0;
         for (int i = 0; i < tape.size && wire.alive; i++) {
             int event = wire.take(tape.at(i));
-            if (event != Wire.MORE) {
-                given += answer(wire, event);
+            if (event == Wire.MORE) {
+                continue;
             }
+            // The steps of an answer stand side by side here, so that no calls go deep.
+            int method = clerk.begin(wire, event);
+            clerk.xmlRight = method >= Clerk.PROPFIND && method <= Clerk.REPORT && xml.read(wire.load);
+            if (method == Clerk.PUT) {
+                clerk.keep();
+            } else if (method == Clerk.GET || method == Clerk.HEAD) {
+                clerk.fetch();
+            } else {
+                clerk.act(method);
+                clerk.query();
+            }
+            scribe.pick(listing.dataElement);
+            if (clerk.page != null) {
+                scribe.write(clerk.version, clerk.page);
+            }
+            if (clerk.status == 207) {
+                listing.start();
+                for (int k = 0; k < listing.entryCount; k++) {
+                    if (clerk.bringsCard(k)) {
+                        scribe.write(clerk.version, listing.data);
+                    }
+                    listing.response(k);
+                }
+            }
+            given += clerk.give(answers);
         }
         tape.clear();
         return given;
@@ -135,58 +162,6 @@ public final class AddressHouse {
             default:
                 return NONE;
         }
-    }
-
-    /** Answers what has come on a connection: 1 when the answer was given. The steps stand side by side to keep calls flat. */
-    private int answer(Wire wire, int event) {
-        int method = clerk.begin(wire, event);
-        if (method >= Clerk.PROPFIND && method <= Clerk.REPORT) {
-            clerk.xmlRight = xml.read(wire.load);
-        }
-        switch (method) {
-            case Clerk.OPTIONS:
-                clerk.options();
-                break;
-            case Clerk.GET:
-            case Clerk.HEAD:
-                clerk.fetch();
-                break;
-            case Clerk.PUT:
-                clerk.keep();
-                break;
-            case Clerk.DELETE:
-                clerk.delete();
-                break;
-            case Clerk.MKCOL:
-                clerk.make();
-                break;
-            case Clerk.PROPFIND:
-                clerk.propfind();
-                break;
-            case Clerk.PROPPATCH:
-                clerk.proppatch();
-                break;
-            case Clerk.REPORT:
-                clerk.report();
-                clerk.select();
-                break;
-            default:
-                break;
-        }
-        scribe.pick(listing.dataElement);
-        if (clerk.page != null) {
-            scribe.write(clerk.version, clerk.page);
-        }
-        if (clerk.status == 207) {
-            listing.start();
-            for (int k = 0; k < listing.entryCount; k++) {
-                if (clerk.bringsCard(k)) {
-                    scribe.write(clerk.version, listing.data);
-                }
-                listing.response(k);
-            }
-        }
-        return clerk.give(answers);
     }
 
     /** Bytes in a row, filled from the front and never past its room; what does not go in is only remembered as over. */
@@ -249,7 +224,12 @@ public final class AddressHouse {
                 unit *= 10;
             }
             for (; unit > 0; unit /= 10) {
-                put('0' + n / unit % 10);
+                if (size < cells.length) {
+                    cells[size] = (byte) ('0' + n / unit % 10);
+                    size++;
+                } else {
+                    over = true;
+                }
             }
         }
 
@@ -820,6 +800,14 @@ public final class AddressHouse {
             }
         }
 
+        Row goneName(int i) {
+            return i >= 0 && i < KEPT ? goneNames[i] : name;
+        }
+
+        int goneChange(int i) {
+            return i >= 0 && i < KEPT ? goneChanges[i] : 0;
+        }
+
         private void dropGone(int gone) {
             Row free = goneNames[gone];
             for (int i = gone; i + 1 < goneCount; i++) {
@@ -873,6 +861,8 @@ public final class AddressHouse {
         int changes;
         final int[] order;
         private final Row secret;
+        private final Book noBook;
+        private final Item noItem;
 
         final Row path;
         int kind;
@@ -898,6 +888,8 @@ public final class AddressHouse {
             }
             order = new int[ITEMS];
             secret = new Row(64);
+            noBook = new Book();
+            noItem = new Item();
             path = new Row(Wire.LOAD_ROOM);
         }
 
@@ -922,6 +914,23 @@ public final class AddressHouse {
             nameTo[userCount] = colon;
             userCount++;
             return userCount - 1;
+        }
+
+        /** A BOOK by its number, an empty one when there is none. */
+        Book bookAt(int i) {
+            return i >= 0 && i < BOOKS ? books[i] : noBook;
+        }
+
+        /** A CARD by its number, an empty one when there is none. */
+        Item itemAt(int i) {
+            return i >= 0 && i < ITEMS ? items[i] : noItem;
+        }
+
+        /** Brings the name of a user behind a row. */
+        void nameOf(int i, Row into) {
+            if (i >= 0 && i < userCount) {
+                into.copy(users[i], 0, nameTo[i]);
+            }
         }
 
         int userNamed(Row row, int from, int to) {
@@ -1099,7 +1108,7 @@ public final class AddressHouse {
 
         void dropBook(int which) {
             changes++;
-            books[which].owner = NONE;
+            bookAt(which).owner = NONE;
             for (int i = 0; i < ITEMS; i++) {
                 if (items[i].book == which) {
                     items[i].book = NONE;
@@ -1109,10 +1118,8 @@ public final class AddressHouse {
 
         void dropItem(int which) {
             changes++;
-            Item it = items[which];
-            if (it.book >= 0 && it.book < BOOKS) {
-                books[it.book].addGone(it.name, changes);
-            }
+            Item it = itemAt(which);
+            bookAt(it.book).addGone(it.name, changes);
             it.book = NONE;
         }
 
@@ -1126,7 +1133,7 @@ public final class AddressHouse {
                     items[i].book = book;
                     items[i].name.clear();
                     items[i].name.copy(path, lastFrom, lastTo);
-                    books[book].comeBack(items[i].name);
+                    bookAt(book).comeBack(items[i].name);
                     return i;
                 }
             }
@@ -1135,7 +1142,8 @@ public final class AddressHouse {
 
         /** The CARD that forbids a UID at the path's end, or NONE. */
         int conflict(Row uid) {
-            if (item != NONE && !uid.same(0, uid.size, items[item].uid, 0, items[item].uid.size)) {
+            Row own = itemAt(item).uid;
+            if (item != NONE && !uid.same(0, uid.size, own, 0, own.size)) {
                 return item;
             }
             for (int i = 0; i < ITEMS; i++) {
@@ -1501,7 +1509,7 @@ public final class AddressHouse {
 
         /** Whether the latest property's value is built as its kind wants; PARTS are told by one sign from then on. */
         private boolean isBuilt() {
-            int[] p = properties[size > 0 ? size - 1 : 0];
+            int[] p = propertyAt(size - 1);
             int from = p[VALUE];
             int to = p[VALUE_TO];
             switch (p[KIND]) {
@@ -1753,6 +1761,11 @@ public final class AddressHouse {
                 }
                 into.put(b);
             }
+        }
+
+        /** A property by its number, the first one when there is none such. */
+        int[] propertyAt(int i) {
+            return properties[i >= 0 && i < size ? i : 0];
         }
 
         /** The first property with a code, or NONE. */
@@ -2034,7 +2047,7 @@ public final class AddressHouse {
             if (sort != NONE && card.parameterOf(p, Card.P_SORT_AS) == NONE) {
                 line.text(";SORT-AS=");
                 part.clear();
-                card.meaning(card.properties[sort], part);
+                card.meaning(card.propertyAt(sort), part);
                 partAsParameter(AS_IS);
             }
         }
@@ -2960,21 +2973,15 @@ public final class AddressHouse {
                     row.cells[i] = (byte) (b + 32);
                 } else if (how == FOLD_UNICODE && (b == 0xC3 || b == 0xCE || b == 0xD0) && c >= 0x80) {
                     int code = (b & 0x1F) << 6 | c & 0x3F;
-                    int small = small(code);
-                    row.cells[i] = (byte) (0xC0 | small >> 6);
-                    row.cells[i + 1] = (byte) (0x80 | small & 0x3F);
+                    boolean latin = code >= 0xC0 && code <= 0xDE && code != 0xD7;
+                    boolean greek = code >= 0x391 && code <= 0x3A9;
+                    boolean cyrillic = code >= 0x410 && code <= 0x42F;
+                    boolean earlier = code >= 0x400 && code <= 0x40F;
+                    code += latin || greek || cyrillic ? 32 : earlier ? 80 : 0;
+                    row.cells[i] = (byte) (0xC0 | code >> 6);
+                    row.cells[i + 1] = (byte) (0x80 | code & 0x3F);
                 }
             }
-        }
-
-        private static int small(int code) {
-            boolean latin = code >= 0xC0 && code <= 0xDE && code != 0xD7;
-            boolean greek = code >= 0x391 && code <= 0x3A9;
-            boolean cyrillic = code >= 0x410 && code <= 0x42F;
-            if (latin || greek || cyrillic) {
-                return code + 32;
-            }
-            return code >= 0x400 && code <= 0x40F ? code + 80 : code;
         }
 
         /** Whether the card that was read fits. */
@@ -3244,18 +3251,18 @@ public final class AddressHouse {
                 body.text("/");
                 return;
             }
-            int inBook = kind == House.CARD ? house.items[index].book : kind == House.BOOK ? index : book;
+            int number = kind == House.CARD ? house.itemAt(index).book : kind == House.BOOK ? index : book;
+            Book in = house.bookAt(number);
             boolean low = kind != House.PRINCIPAL && kind != House.HOME;
-            int owner = low ? house.books[inBook].owner : index;
             body.text(kind == House.PRINCIPAL ? "/p/" : "/a/");
-            body.copy(house.users[owner], 0, house.nameTo[owner]);
+            house.nameOf(low ? in.owner : index, body);
             body.text("/");
             if (low) {
-                body.copy(house.books[inBook].name, 0, house.books[inBook].name.size);
+                body.copy(in.name, 0, in.name.size);
                 body.text("/");
             }
             if (kind == House.CARD || kind == GONE) {
-                Row last = kind == GONE ? house.books[book].goneNames[index] : house.items[index].name;
+                Row last = kind == GONE ? in.goneName(index) : house.itemAt(index).name;
                 body.copy(last, 0, last.size);
             }
         }
@@ -3332,7 +3339,7 @@ public final class AddressHouse {
             if (kind != House.BOOK) {
                 return true;
             }
-            Book it = house.books[indexes[k]];
+            Book it = house.bookAt(indexes[k]);
             if (code == DISPLAYNAME) {
                 return it.hasTitle;
             }
@@ -3389,14 +3396,14 @@ public final class AddressHouse {
                     break;
                 case DISPLAYNAME:
                     if (kind == House.PRINCIPAL) {
-                        body.copy(house.users[index], 0, house.nameTo[index]);
+                        house.nameOf(index, body);
                         break;
                     }
                     bookContents(code, index);
                     break;
                 default:
                     if (kind == House.CARD) {
-                        cardContents(code, house.items[index]);
+                        cardContents(code, house.itemAt(index));
                     } else if (kind == House.BOOK) {
                         bookContents(code, index);
                     }
@@ -3417,7 +3424,7 @@ public final class AddressHouse {
         }
 
         private void bookContents(int code, int index) {
-            Book it = house.books[index];
+            Book it = house.bookAt(index);
             switch (code) {
                 case DISPLAYNAME:
                     body.escaped(it.title, 0, it.title.size, false);
@@ -3443,7 +3450,7 @@ public final class AddressHouse {
                 case READERS:
                     for (int i = 0; i < it.readerCount; i++) {
                         body.text(i == 0 ? "" : ",");
-                        body.copy(house.users[it.readers[i]], 0, house.nameTo[it.readers[i]]);
+                        house.nameOf(it.readers[i], body);
                     }
                     break;
                 default:
@@ -3460,15 +3467,15 @@ public final class AddressHouse {
         private void href(String ahead, int whose) {
             body.text("<D:href>");
             body.text(ahead);
-            body.copy(house.users[whose], 0, house.nameTo[whose]);
+            house.nameOf(whose, body);
             body.text("/</D:href>");
         }
 
         private int ownerOf(int kind, int index) {
             if (kind == House.CARD) {
-                return house.books[house.items[index].book].owner;
+                return house.bookAt(house.itemAt(index).book).owner;
             }
-            return kind == House.BOOK ? house.books[index].owner : index;
+            return kind == House.BOOK ? house.bookAt(index).owner : index;
         }
 
         void token(int made, int change) {
@@ -3559,10 +3566,6 @@ public final class AddressHouse {
         static final int OTHER_DEPTH = 3;
         static final int NO_LIMIT = 1000;
 
-        static final int MULTIGET = 1;
-        static final int QUERY = 2;
-        static final int SYNC = 3;
-
         boolean xmlRight;
         int status;
         /** Where the card that was read is to be written when the request has been seen to, if anywhere, and in which version. */
@@ -3580,7 +3583,7 @@ public final class AddressHouse {
         private int type;
         private int method;
         private int user;
-        private int which;
+        private boolean querying;
         /** The change that the sync-token behind all responses tells, or NONE. */
         private int tail;
 
@@ -3601,7 +3604,7 @@ public final class AddressHouse {
             type = NO_TYPE;
             page = null;
             tail = NONE;
-            xmlRight = false;
+            querying = false;
             user = NONE;
             method = NONE;
             closing = event != Wire.WHOLE || wire.isLike(Wire.CONNECTION, "close");
@@ -3646,7 +3649,7 @@ public final class AddressHouse {
             if (house.kind == House.ROOT || house.kind == House.PRINCIPAL || house.owner == user) {
                 return true;
             }
-            boolean reads = house.book != NONE && house.books[house.book].isReader(user);
+            boolean reads = house.book != NONE && house.bookAt(house.book).isReader(user);
             return reads && (READING >> method & 1) == 1;
         }
 
@@ -3690,9 +3693,9 @@ public final class AddressHouse {
                 return house.item != NONE ? 1 : 0;
             }
             plain.clear();
-            plain.number(house.item != NONE ? house.items[house.item].change : 0);
+            plain.number(house.itemAt(house.item).change);
             int met = 0;
-            while (i <= to) {
+            for (int round = 0; round < Wire.HEAD_ROOM; round++) {
                 int first = i + 1;
                 int last = first;
                 while (last < to && Row.isDigit(wire.head.at(last))) {
@@ -3725,17 +3728,43 @@ public final class AddressHouse {
 
         private void etag() {
             told.text("ETag: \"");
-            told.number(house.item != NONE ? house.items[house.item].change : 0);
+            told.number(house.itemAt(house.item).change);
             told.text("\"\r\n");
         }
 
-        void options() {
+        /** Does what a method wants that needs no card to be read. */
+        void act(int wanted) {
+            switch (wanted) {
+                case OPTIONS:
+                    options();
+                    break;
+                case DELETE:
+                    delete();
+                    break;
+                case MKCOL:
+                    make();
+                    break;
+                case PROPFIND:
+                    propfind();
+                    break;
+                case PROPPATCH:
+                    proppatch();
+                    break;
+                case REPORT:
+                    report();
+                    break;
+                default:
+                    break;
+            }
+        }
+
+        private void options() {
             status = 200;
             allow();
             told.text("DAV: 1, 3, access-control, addressbook\r\n");
         }
 
-        void make() {
+        private void make() {
             if (wire.load.size > 0) {
                 status = 415;
             } else {
@@ -3743,7 +3772,7 @@ public final class AddressHouse {
             }
         }
 
-        void delete() {
+        private void delete() {
             status = 204;
             if (house.kind == House.BOOK) {
                 house.dropBook(house.book);
@@ -3761,7 +3790,7 @@ public final class AddressHouse {
             status = 200;
             type = VCARD;
             etag();
-            Row text = house.items[house.item].text;
+            Row text = house.itemAt(house.item).text;
             if (version == 0) {
                 listing.body.copy(text, 0, text.size);
             } else if (card.read(text)) {
@@ -3798,7 +3827,7 @@ public final class AddressHouse {
             if (plain.wordOf("text/vcard text/* */*", from, end, true) == NONE) {
                 return NONE;
             }
-            while (end < to) {
+            for (int round = 0; round < Wire.HEAD_ROOM && end < to; round++) {
                 int start = end + 1;
                 end = plain.indexOf(';', start, to);
                 if (plain.like(start, Math.min(start + 8, end), "version=")) {
@@ -3817,7 +3846,7 @@ public final class AddressHouse {
                 error("C:valid-address-data");
             } else {
                 plain.clear();
-                card.meaning(card.properties[card.propertyOf(Card.UID)], plain);
+                card.meaning(card.propertyAt(card.propertyOf(Card.UID)), plain);
                 int other = house.conflict(plain);
                 if (other == NONE) {
                     store();
@@ -3847,7 +3876,7 @@ public final class AddressHouse {
                 return;
             }
             house.item = place;
-            Item it = house.items[place];
+            Item it = house.itemAt(place);
             house.changes++;
             it.change = house.changes;
             it.uid.clear();
@@ -3891,7 +3920,7 @@ public final class AddressHouse {
             return said == NONE ? OTHER_DEPTH : said;
         }
 
-        void propfind() {
+        private void propfind() {
             int depth = depth();
             if (depth == OTHER_DEPTH) {
                 status = 400;
@@ -3933,7 +3962,7 @@ public final class AddressHouse {
             }
         }
 
-        void proppatch() {
+        private void proppatch() {
             if (!xmlRight || !xml.is(0, Xml.D, "propertyupdate") || !takeUpdates()) {
                 status = 400;
                 return;
@@ -4004,7 +4033,7 @@ public final class AddressHouse {
         }
 
         private void patch(int e, int code) {
-            Book book = house.books[house.book];
+            Book book = house.bookAt(house.book);
             if (code == Listing.READERS) {
                 book.readerCount = 0;
                 if (isSet(e)) {
@@ -4054,9 +4083,7 @@ public final class AddressHouse {
             return true;
         }
 
-        /** Looks at what all reports have; what is told is selected behind that. */
-        void report() {
-            which = NONE;
+        private void report() {
             if (!xmlRight) {
                 status = 400;
                 return;
@@ -4071,33 +4098,35 @@ public final class AddressHouse {
                 status = 400;
                 return;
             }
-            version = 0;
-            int data = listing.dataElement;
-            if (data != NONE) {
-                int content = xml.attribute(data, "content-type");
-                int wanted = xml.attribute(data, "version");
-                int said = xml.values.wordOf("3.0 4.0", xml.valueFrom(wanted), xml.valueTo(wanted), false);
-                version = wanted == NONE ? 0 : said == NONE ? NONE : said + 3;
-                if (version == NONE || content != NONE && !xml.attributeLike(data, "content-type", "text/vcard")) {
-                    error("C:supported-address-data");
-                    return;
-                }
-            }
-            which = query ? QUERY : sync ? SYNC : MULTIGET;
-        }
-
-        void select() {
-            if (which == NONE) {
+            version = dataVersion(listing.dataElement);
+            if (version == NONE) {
+                error("C:supported-address-data");
                 return;
             }
             status = 207;
-            if (which == MULTIGET) {
-                multiget();
-            } else if (which == SYNC) {
+            querying = query;
+            if (sync) {
                 sync();
-            } else {
-                query();
+            } else if (!query) {
+                multiget();
             }
+        }
+
+        /** The version in which C:address-data wants cards, 0 for any, NONE when there is none such. */
+        private int dataVersion(int data) {
+            if (data == NONE) {
+                return 0;
+            }
+            boolean typed = xml.attribute(data, "content-type") != NONE;
+            if (typed && !xml.attributeLike(data, "content-type", "text/vcard")) {
+                return NONE;
+            }
+            int wanted = xml.attribute(data, "version");
+            if (wanted == NONE) {
+                return 0;
+            }
+            int said = xml.values.wordOf("3.0 4.0", xml.valueFrom(wanted), xml.valueTo(wanted), false);
+            return said == NONE ? NONE : said + 3;
         }
 
         private void multiget() {
@@ -4105,11 +4134,13 @@ public final class AddressHouse {
             for (int e = 1; e < xml.size; e++) {
                 if (xml.elements[e][Xml.PARENT] == 0 && xml.is(e, Xml.D, "href")) {
                     hrefs++;
-                    if (hrefs > 20) {
-                        break;
+                    int from = pathFrom(e);
+                    boolean leads = house.follow(xml.texts, from, xml.trimmedTo(e)) == 0 && house.kind == House.CARD;
+                    if (leads && house.book == listing.book) {
+                        listing.add(House.CARD, house.item, 0);
+                    } else {
+                        listing.add(Listing.HREF, e, 404);
                     }
-                    int item = itemAt(xml.trimmedFrom(e), xml.trimmedTo(e));
-                    listing.add(item == NONE ? Listing.HREF : House.CARD, item == NONE ? e : item, item == NONE ? 404 : 0);
                 }
             }
             if (hrefs < 1 || hrefs > 20) {
@@ -4117,17 +4148,19 @@ public final class AddressHouse {
             }
         }
 
-        /** The CARD of this BOOK to which an href leads, or NONE. */
-        private int itemAt(int from, int to) {
-            int start = from;
-            if (xml.texts.starts(from, "http://") && from + 7 <= to) {
-                start = xml.texts.indexOf('/', from + 7, to);
-            }
-            boolean leads = house.follow(xml.texts, start, to) == 0 && house.kind == House.CARD;
-            return leads && house.book == listing.book ? house.item : NONE;
+        /** Where the path of an href begins, behind 'http://' and what is up to the next / . */
+        private int pathFrom(int e) {
+            int from = xml.trimmedFrom(e);
+            int to = xml.trimmedTo(e);
+            boolean whole = from + 7 <= to && xml.texts.is(from, from + 7, "http://");
+            return whole ? xml.texts.indexOf('/', from + 7, to) : from;
         }
 
-        private void query() {
+        /** Looks through the BOOK when that is what the report wants. */
+        void query() {
+            if (!querying) {
+                return;
+            }
             int child = xml.child(0, Xml.C, "filter");
             int wrong = child == NONE ? 400 : filter.read(child);
             int most = limit(Xml.C);
@@ -4143,7 +4176,7 @@ public final class AddressHouse {
             int n = depth == 1 || depth == INFINITY ? house.orderItems(listing.book) : 0;
             for (int i = 0; i < n; i++) {
                 int item = house.order[i];
-                if (card.read(house.items[item].text) && filter.fits()) {
+                if (card.read(house.itemAt(item).text) && filter.fits()) {
                     listing.add(House.CARD, item, 0);
                 }
             }
@@ -4196,7 +4229,7 @@ public final class AddressHouse {
                 status = 400;
                 return;
             }
-            Book book = house.books[listing.book];
+            Book book = house.bookAt(listing.book);
             boolean anew = xml.trimmedFrom(token) >= xml.trimmedTo(token);
             int since = anew ? 0 : changeOf(book, xml.trimmedFrom(token), xml.trimmedTo(token));
             if (since == NONE) {
@@ -4256,7 +4289,7 @@ public final class AddressHouse {
 
         private int entryChange(Book book, int k) {
             int index = listing.indexes[k];
-            return listing.kinds[k] == Listing.GONE ? book.goneChanges[index] : house.items[index].change;
+            return listing.kinds[k] == Listing.GONE ? book.goneChange(index) : house.itemAt(index).change;
         }
 
         /** Whether the card that entry k shows has been read to be written; what can be shown as it is kept is there already. */
@@ -4265,7 +4298,7 @@ public final class AddressHouse {
             if (item == NONE) {
                 return false;
             }
-            Row text = house.items[item].text;
+            Row text = house.itemAt(item).text;
             listing.data.clear();
             if (version == 0 && xml.child(listing.dataElement, Xml.C, "prop") == NONE) {
                 listing.data.copy(text, 0, text.size);
@@ -4314,12 +4347,12 @@ public final class AddressHouse {
             Row body = listing.body;
             if (tail != NONE) {
                 body.text("<D:sync-token>");
-                listing.token(house.books[listing.book].made, tail);
+                listing.token(house.bookAt(listing.book).made, tail);
                 body.text("</D:sync-token>");
             }
             body.text("</D:multistatus>");
             type = XML;
-            if (body.over) {
+            if (body.over || body.size > BODY_LIMIT) {
                 body.clear();
                 status = 507;
                 type = NO_TYPE;
