@@ -1822,10 +1822,6 @@ public final class AddressHouse {
                 && xml.child(element, Xml.C, "allprop") == NONE;
         }
 
-        boolean picks() {
-            return picker != NONE && xml.child(picker, Xml.C, "prop") != NONE;
-        }
-
         /** Writes the card that was read in a version, 0 for its own, behind a row. */
         void write(int version, Row into) {
             page = into;
