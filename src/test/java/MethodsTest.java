@@ -63,6 +63,12 @@ public final class MethodsTest {
             String version = answer.contains("VERSION:3.0\r\n") ? "3" : answer.contains("VERSION:4.0\r\n") ? "4" : "0";
             Talk.due("Accept: " + row, version, row.substring(i + 1));
         }
+        String as4 = talk.ask("ann", "GET /a/ann/b1/c1", "Accept: text/vcard;version=4.0\r\n", "");
+        Talk.due("in its own version", Talk.bodyOf(as4), Talk.plain("u1", "A"));
+        talk.put("/a/ann/b1/c3", Talk.card3("FN:A\r\nN:B\r\nUID:u3\r\nREV:20000101\r\n"));
+        Talk.due("in 4.0", talk.ask("ann", "GET /a/ann/b1/c3", "Accept: text/vcard;version=4.0\r\n", ""),
+            "HTTP/1.1 200 OK\r\nETag: \"3\"\r\nContent-Type: text/vcard; charset=utf-8\r\nContent-Length: 78\r\n\r\n"
+            + Talk.card4("FN:A\r\nN:B\r\nUID:u3\r\nREV:20000101T000000Z\r\n"));
         Talk.due("406", talk.ask("ann", "HEAD /a/ann/b1/c1", "Accept: x/y\r\n", ""),
             "HTTP/1.1 406 Not Acceptable\r\n" + EMPTY);
         Talk.due("HEAD of the other version", talk.ask("ann", "HEAD /a/ann/b1/c1", "Accept: */*;version=3.0\r\n", ""),

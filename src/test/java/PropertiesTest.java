@@ -106,6 +106,28 @@ public final class PropertiesTest {
         Talk.due("properties of a BOOK", find(talk, "/a/ann/b1", "0", prop(own)),
             Talk.multi("<D:response><D:href>/a/ann/b1/</D:href>" + Talk.propstat("200 OK", found)
                 + Talk.propstat("404 Not Found", "<D:displayname/>") + "</D:response>"));
+        String names = "D:resourcetype D:displayname D:getetag D:getcontenttype D:getcontentlength D:current-user-principal "
+            + "C:addressbook-home-set D:owner D:current-user-privilege-set D:supported-report-set C:supported-address-data "
+            + "C:addressbook-description C:max-resource-size D:sync-token R:readers";
+        String[] places = {"/", "/p/ann/", "/a/ann/", "/a/ann/b1/", "/a/ann/b1/c1"};
+        String[] missing = {"o: 1 2 3 4 6 7 9 10 11 12 13 14", "p: 2 3 4 7 9 10 11 12 13 14", "h: 1 2 3 4 6 9 10 11 12 13 14",
+            "b: 1 2 3 4 6 11", "c: 1 6 9 10 11 12 13 14"};
+        String all = "";
+        for (String name : names.split(" ")) {
+            all += "<" + name + "/>";
+        }
+        for (int i = 0; i < places.length; i++) {
+            String none = "";
+            String[] known = names.split(" ");
+            for (int k = 0; k < known.length; k++) {
+                if ((missing[i] + " ").contains(" " + k + " ")) {
+                    none += k == 14 ? "<x:readers xmlns:x=\"urn:x-readers\"/>" : "<" + known[k] + "/>";
+                }
+            }
+            String out = find(talk, places[i], "0", prop(all));
+            Talk.due("what is not at " + places[i], out.endsWith("</D:propstat>" + Talk.propstat("404 Not Found", none)
+                + "</D:response></D:multistatus>"), true);
+        }
         String strange = "<D:getetag/><C:getetag/><getetag xmlns=''/><y:z xmlns:y='a&amp;b&lt;&gt;&quot;&apos;'>t<y:q/></y:z>"
             + "<D:getetag/><xml:lang/><C:address-data/><D:displayname/>";
         Talk.due("strange properties of a CARD", find(talk, "/a/ann/b1/c1", "0", prop(strange)),
@@ -178,6 +200,9 @@ public final class PropertiesTest {
             + set("<D:displayname>2</D:displayname>")), done("<D:displayname/><C:addressbook-description/>"));
         Talk.due("the last one", shown(talk, "D:displayname"), "<D:displayname>2</D:displayname>");
         Talk.due("the removed one", shown(talk, "C:addressbook-description"), "404");
+        patch(talk, set("<D:displayname>&#x7f;&#233;&#x7FF;&#x800;&#x20AC;&#65533;&#x10000;&#x10FFFF;</D:displayname>"));
+        Talk.due("characters by their numbers", shown(talk, "D:displayname"), "<D:displayname>\u007f\u00e9\u07ff\u0800\u20ac"
+            + "\ufffd\ud800\udc00\udbff\udfff</D:displayname>");
         patch(talk, set("<D:displayname/>"));
         Talk.due("an empty one", shown(talk, "D:displayname"), "<D:displayname/>");
         patch(talk, remove("<D:displayname/>"));
@@ -203,6 +228,9 @@ public final class PropertiesTest {
         String readers = "<x:readers xmlns:x=\"urn:x-readers\"/>";
         Talk.due("readers", patch(talk, set("<R:readers> cat , bob,cat</R:readers>")), done(readers));
         Talk.due("as they were told", shown(talk, "R:readers"), readers.replace("/>", ">cat,bob</x:readers>"));
+        patch(talk, set("<R:readers>bob  ,cat</R:readers>"));
+        Talk.due("S behind a name", shown(talk, "R:readers"), readers.replace("/>", ">bob,cat</x:readers>"));
+        patch(talk, set("<R:readers>cat,bob  </R:readers>"));
         Talk.due("bob reads", talk.status("bob", "OPTIONS /a/ann/b1", "", ""), 200);
         String seen = talk.ask("bob", "PROPFIND /a/ann/b1", "Depth: 0\r\n",
             prop("<R:readers/><D:current-user-privilege-set/><D:current-user-principal/><D:owner/>"));

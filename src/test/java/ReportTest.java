@@ -191,6 +191,12 @@ public final class ReportTest {
         for (String[] row : rows) {
             Talk.due(row[0] + " " + row[1] + " " + row[2], hits(talk, prop(row[0], match(row[1], row[2]))), row[3]);
         }
+        talk.put("/a/ann/b1/c1", Talk.card4("FN:A\r\nUID:u1\r\nNICKNAME:a\\,b,c\\nd\r\nORG:x\\;y;z\\\\\r\nURL:a\\,b\r\nX-Y:a\\nb\r\n"));
+        String[][] meanings = {{"NICKNAME", "a,b,c\nd"}, {"ORG", "x;y;z\\"}, {"URL", "a\\,b"}, {"X-Y", "a\\nb"}};
+        for (String[] row : meanings) {
+            Talk.due("MEANING of " + row[0], hits(talk, prop(row[0], match("match-type='equals'", row[1]))), "c1");
+        }
+        Talk.due("- is not LIKE 13", hits(talk, prop("X&#13;Y", "")), "");
         talk.put("/a/ann/b1/c1", Talk.plain("u1", "\u00d7\u00de\u00df\u0391\u03a9\u0410\u042f\u0400\u040f\u00c0"));
         Talk.due("edges of the letters", hits(talk, prop("FN", match("match-type='equals'",
             "\u00d7\u00fe\u00df\u03b1\u03c9\u0430\u044f\u0450\u045f\u00e0"))), "c1");
@@ -264,11 +270,13 @@ public final class ReportTest {
         talk.put("/a/ann/b1/c3", Talk.plain("u3", "C"));
         Talk.due("it is there again", sync(talk, "urn:x-sync:1-5", ""),
             Talk.multi(etag("c3", 7) + token("urn:x-sync:1-7")));
+        talk.ann("DELETE /a/ann/b1/c3");
         talk.ann("DELETE /a/ann/b1");
         talk.ann("MKCOL /a/ann/b1");
         Talk.due("a BOOK made anew", sync(talk, "urn:x-sync:1-5", ""), Talk.error("<D:valid-sync-token/>"));
-        Talk.due("has a token of its own", sync(talk, "urn:x-sync:9-9", ""), Talk.multi(token("urn:x-sync:9-9")));
-        Talk.due("that is not older", sync(talk, "urn:x-sync:9-8", ""), Talk.error("<D:valid-sync-token/>"));
+        Talk.due("has a token of its own", sync(talk, "urn:x-sync:10-10", ""), Talk.multi(token("urn:x-sync:10-10")));
+        Talk.due("that is not older", sync(talk, "urn:x-sync:10-9", ""), Talk.error("<D:valid-sync-token/>"));
+        Talk.due("and nothing in mind", sync(talk, "", ""), Talk.multi(token("urn:x-sync:10-10")));
     }
 
     private static void forgotten() {

@@ -236,6 +236,21 @@ public final class TurnTest {
             "20000230T101010", "20000101T101010+05300"}) {
             none(4, "REV:" + stamp);
         }
+        int[] days = {31, 29, 31, 30, 31, 30, 31, 31, 30, 31, 30, 31};
+        for (int month = 1; month <= 12; month++) {
+            String head = month < 10 ? "0" + month : "" + month;
+            same(3, "BDAY:2000-" + head + "-" + days[month - 1]);
+            none(3, "BDAY:2000-" + head + "-" + (days[month - 1] + 1));
+            same(4, "BDAY:--" + head + days[month - 1]);
+            none(4, "BDAY:--" + head + (days[month - 1] + 1));
+        }
+        for (String year : new String[] {"2004", "1996", "2400", "0400"}) {
+            same(4, "BDAY:" + year + "0229");
+        }
+        for (String year : new String[] {"2005", "2010", "2100", "0100", "2015", "2006"}) {
+            none(4, "BDAY:" + year + "0229");
+            same(4, "BDAY:" + year + "0228");
+        }
         same(4, "BDAY;VALUE=text:about 1900");
         same(4, "REV;VALUE=TEXT:now");
     }
@@ -261,12 +276,17 @@ public final class TurnTest {
         turns(4, 4, "NOTE:" + "x".repeat(69) + "\u00e9y", "NOTE:" + "x".repeat(69) + "\r\n \u00e9y");
         turns(4, 4, "NOTE:" + "x".repeat(70) + "\ud83d\ude00".repeat(19),
             "NOTE:" + "x".repeat(70) + "\r\n " + "\ud83d\ude00".repeat(18) + "\r\n \ud83d\ude00");
+        turns(4, 4, "NOTE:" + "x".repeat(70) + "\u20ac".repeat(25),
+            "NOTE:" + "x".repeat(70) + "\r\n " + "\u20ac".repeat(24) + "\r\n \u20ac");
+        turns(4, 4, "NOTE:" + "x".repeat(70) + "\u00e9".repeat(38),
+            "NOTE:" + "x".repeat(70) + "\r\n " + "\u00e9".repeat(37) + "\r\n \u00e9");
         turns(4, 4, "NOTE:" + "x".repeat(69) + ",y", "NOTE:" + "x".repeat(69) + "\\\r\n ,y");
         turns(4, 4, "NOTE:" + "x".repeat(70) + "  y", "NOTE:" + "x".repeat(70) + "\r\n   y");
     }
 
     private static void up() {
         turns(3, 4, "TEL;CHARSET=x;Type=HOME,Pref,W;X=Y:1", "TEL;TYPE=home,w;X=Y;PREF=1:1");
+        turns(3, 4, "TEL;TYPE=AZaz@[`{:1", "TEL;TYPE=azaz@[`{:1");
         turns(3, 4, "TEL;TYPE=pref:1", "TEL;PREF=1:1");
         turns(3, 4, "TEL;PREF=7;TYPE=PREF:1", "TEL;PREF=7:1");
         turns(3, 4, "TEL;TYPE=:1", "TEL;TYPE=:1");
@@ -301,6 +321,9 @@ public final class TurnTest {
 
     private static void down() {
         turns(4, 3, "TEL;PREF=1;TYPE=home,\"a,b\";CHARSET=x:1", "TEL;TYPE=HOME,\"A,B\",PREF;CHARSET=x:1");
+        turns(4, 3, "TEL;TYPE=AZaz@[`{:1", "TEL;TYPE=AZAZ@[`{:1");
+        turns(4, 3, "KEY;TYPE=a:http://x", "KEY;TYPE=A;VALUE=uri:http://x");
+        turns(4, 3, "SOURCE;VALUE=x;ENCODING=b:http://x", "X-SOURCE;VALUE=x;ENCODING=b:http://x");
         turns(4, 3, "TEL;PREF=;X=y:1", "TEL;X=y;TYPE=PREF:1");
         turns(4, 3, "TEL;TYPE=pref;PREF=1:1", "TEL;TYPE=PREF,PREF:1");
         turns(4, 3, "g.FN;TYPE=x:B,C\r\nFN;PREF=1:D", "g.X-FN;TYPE=X:B\\,C\r\nX-FN;TYPE=PREF:D");

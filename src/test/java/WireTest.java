@@ -55,6 +55,7 @@ public final class WireTest {
         closes("an empty HEAD", "\r\n\r\n", bad);
         closes("an empty line ahead", "\r\n" + head(""), bad);
         closes("a TARGET of 201 bytes", head("").replace(" / ", " /" + "x".repeat(200) + " "), bad);
+        closes("a TARGET with 127", head("").replace(" / ", " /\u007f "), bad);
         closes("no TARGET", head("").replace(" / ", "  "), bad);
         closes("two S", head("").replace(" / ", "  / "), bad);
         closes("a small METHOD", head("").replace("OPTIONS", "Options"), bad);
@@ -72,6 +73,10 @@ public final class WireTest {
             closes("twice " + name, head("X: y\r\n" + name + ": 0\r\n" + name.toLowerCase() + ": 0\r\n"), bad);
         }
         goes("twice another one", head("X: y\r\nX: y\r\n"));
+        for (String method : new String[] {"A", "Z".repeat(20), "OPTIONSS", "OPTION"}) {
+            Talk.due("METHOD " + method, Talk.begun().come(head("").replace("OPTIONS", method)),
+                "HTTP/1.1 501 Not Implemented\r\nContent-Length: 0\r\n\r\n");
+        }
         String long1 = head("X: " + "y".repeat(1920) + "\r\n");
         String whole = head("X: " + "y".repeat(1920 + 2000 - long1.length()) + "\r\n");
         Talk.due("2000 bytes", whole.length(), 2000);
