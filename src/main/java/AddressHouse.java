@@ -1375,7 +1375,7 @@ public final class AddressHouse {
             return i;
         }
 
-        private static boolean isLong(int from, int to) {
+        private static boolean hasWrongLength(int from, int to) {
             return to - from < 1 || to - from > 30;
         }
 
@@ -1386,13 +1386,13 @@ public final class AddressHouse {
             int name = start;
             int i = wordEnd(start);
             if (text.at(i) == '.') {
-                if (isLong(start, i)) {
+                if (hasWrongLength(start, i)) {
                     return false;
                 }
                 name = i + 1;
                 i = wordEnd(name);
             }
-            if (isLong(name, i)) {
+            if (hasWrongLength(name, i)) {
                 return false;
             }
             int[] p = properties[size];
@@ -1422,7 +1422,7 @@ public final class AddressHouse {
         /** Reads a parameter at start: where it ends, or NONE when it is none. */
         private int parameter(int first, int start) {
             int i = wordEnd(start);
-            if (isLong(start, i) || text.at(i) != '=' || parameterCount >= parameters.length) {
+            if (hasWrongLength(start, i) || text.at(i) != '=' || parameterCount >= parameters.length) {
                 return NONE;
             }
             text.capitals(start, i);

@@ -78,7 +78,7 @@ public final class FaceTest {
     private static void users() {
         Talk talk = new Talk();
         String[] none = {"", ":", "a:", ":b", "ann", "Ann:x", "a1:x", "abcdefghijklm:x", "a: ", "a:x y", "a:\u00e9",
-            "a:123456789012345678901", "a:x\r\n", "a :x"};
+            "a:123456789012345678901", "a:x\r\n", "a :x", "a:\u007f", "`:x", "{:x"};
         for (String text : none) {
             Talk.due("no user " + text, talk.user(text), -1);
             Talk.due("the tape is empty behind " + text, talk.house.end(1), false);
@@ -87,7 +87,7 @@ public final class FaceTest {
         Talk.due("the tape is empty behind a user", talk.house.end(1), false);
         Talk.due("a name that is there", talk.user("abcdefghijkl:x"), -1);
         Talk.due("user 1", talk.user("a::"), 1);
-        Talk.due("user 2", talk.user("b:~!"), 2);
+        Talk.due("user 2", talk.user("zb:~!"), 2);
         Talk.due("user 3", talk.user("c:x"), 3);
         Talk.due("a fifth user", talk.user("d:x"), -1);
         talk.house.open();

@@ -65,6 +65,8 @@ public final class MethodsTest {
         }
         String as4 = talk.ask("ann", "GET /a/ann/b1/c1", "Accept: text/vcard;version=4.0\r\n", "");
         Talk.due("in its own version", Talk.bodyOf(as4), Talk.plain("u1", "A"));
+        String any = talk.ask("ann", "GET /a/ann/b1/c1", "Accept: text/*;q=1\r\n", "");
+        Talk.due("in any version", Talk.bodyOf(any), Talk.plain("u1", "A"));
         talk.put("/a/ann/b1/c3", Talk.card3("FN:A\r\nN:B\r\nUID:u3\r\nREV:20000101\r\n"));
         Talk.due("in 4.0", talk.ask("ann", "GET /a/ann/b1/c3", "Accept: text/vcard;version=4.0\r\n", ""),
             "HTTP/1.1 200 OK\r\nETag: \"3\"\r\nContent-Type: text/vcard; charset=utf-8\r\nContent-Length: 78\r\n\r\n"

@@ -53,6 +53,7 @@ public final class PlaceTest {
         for (String path : new String[] {"/%", "/%4", "/%4g", "/a/ann/%zz?", "/x%", "/a%2"}) {
             Talk.due("400 for " + path, talk.ann("OPTIONS " + path), "HTTP/1.1 400 Bad Request\r\n" + EMPTY);
         }
+        Talk.due("an empty name", talk.status("ann", "MKCOL /a/ann//", "", ""), 404);
         Talk.due("nothing is below a PRINCIPAL", talk.status("ann", "MKCOL /p/ann/x", "", ""), 404);
         Talk.due("20 letters", talk.status("ann", "MKCOL /a/ann/" + "9".repeat(20), "", ""), 201);
         Talk.due("20 letters", talk.put("/a/ann/b1/" + "Z".repeat(20), Talk.plain("u2", "A")), 201);

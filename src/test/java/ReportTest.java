@@ -94,6 +94,9 @@ public final class ReportTest {
         Talk.due("without values", data(talk, "<C:address-data><C:prop name='home.TEL'/><C:prop name='TEL' novalue='YES'/>"
             + "<C:prop name='TEL'/><C:prop name='UID' novalue='no'/></C:address-data>"),
             Talk.card4("UID:u1\r\nhome.TEL;TYPE=cell,\"a,B\":1\r\nTEL;PREF=1:\r\n"));
+        Talk.due("other children pick nothing", data(talk, "<C:address-data><C:x name='TEL'/><D:prop name='TEL'/>"
+            + "<C:prop name='FN'><C:prop name='TEL'/></C:prop><C:prop/></C:address-data><C:prop name='UID'/>"),
+            Talk.card4("FN:Ann\r\n"));
         Talk.due("an empty group", data(talk, "<C:address-data><C:prop name='.TEL'/></C:address-data>"), Talk.card4(""));
         Talk.due("picked from the turned card", data(talk,
             "<C:address-data version='3.0'><C:prop name='N'/></C:address-data>"), Talk.card3("N:Ann;;;;\r\n"));
@@ -120,6 +123,10 @@ public final class ReportTest {
             due += row[1].isEmpty() ? Talk.told(row[0].trim(), "404 Not Found") : row[1];
         }
         Talk.due("hrefs", report(talk, "C:addressbook-multiget", ETAG + hrefs), Talk.multi(due));
+        Talk.due("an href ends where it ends", report(talk, "C:addressbook-multiget",
+            "<D:href>/a/ann/b1/c%3</D:href><D:href>2</D:href><D:href>http:/</D:href><D:href>/a/ann/b1/c2</D:href>"), Talk.multi(
+            Talk.told("/a/ann/b1/c%3", "404 Not Found") + Talk.told("2", "404 Not Found")
+            + Talk.told("http:/", "404 Not Found") + Talk.told("/a/ann/b1/c2", "200 OK")));
         Talk.due("no href", talk.status("ann", "REPORT /a/ann/b1", "", Talk.root("C:addressbook-multiget", ETAG)), 400);
         String one = "<D:href>/a/ann/b1/c2</D:href>";
         Talk.due("20 hrefs", talk.status("ann", "REPORT /a/ann/b1", "",
@@ -162,6 +169,11 @@ public final class ReportTest {
         for (String[] row : rows) {
             Talk.due("filter " + row[0], hits(talk, row[0]), row[1]);
         }
+        Talk.due("attributes are of no namespace", talk.ask("ann", "REPORT /a/ann/b1", "Depth:1\r\n",
+            "<addressbook-query xmlns='urn:ietf:params:xml:ns:carddav' xmlns:q='q'><filter test='allof' q:test='x'><prop-filter name='TEL' "
+            + "q:name='NOTE'/></filter></addressbook-query>"), Talk.multi(Talk.told("/a/ann/b1/c1", "200 OK")));
+        Talk.due("an attribute of another namespace", talk.status("ann", "REPORT /a/ann/b1", "Depth:1\r\n",
+            Talk.root("C:addressbook-query", "<C:filter><C:prop-filter C:name='TEL'/></C:filter>")), 400);
         Talk.due("a collation", query(talk, prop("X", "<C:text-match collation='z' match-type='z'/>")),
             Talk.error("<C:supported-collation/>"));
         Talk.due("the first that is wrong", hits(talk, prop("X", "<C:text-match match-type='z'/>"
@@ -196,6 +208,12 @@ public final class ReportTest {
         for (String[] row : meanings) {
             Talk.due("MEANING of " + row[0], hits(talk, prop(row[0], match("match-type='equals'", row[1]))), "c1");
         }
+        talk.put("/a/ann/b1/c1", Talk.card4("FN:A\r\nUID:u1\r\nTZ;az=Z:aZ\r\nADR:\r\nX-Y:@[`{\r\n"));
+        Talk.due("tz", hits(talk, prop("tz", match("", "Az"))), "c1");
+        Talk.due("Adr", hits(talk, prop("Adr", "")), "c1");
+        Talk.due("a parameter", hits(talk, prop("Tz", "<C:param-filter name='aZ'>" + match("", "z") + "</C:param-filter>")), "c1");
+        Talk.due("signs beside letters", hits(talk, prop("X-Y", match("", "`{@["))), "");
+        Talk.due("the signs themselves", hits(talk, prop("x-y", match("", "@[`{"))), "c1");
         Talk.due("- is not LIKE 13", hits(talk, prop("X&#13;Y", "")), "");
         talk.put("/a/ann/b1/c1", Talk.plain("u1", "\u00d7\u00de\u00df\u0391\u03a9\u0410\u042f\u0400\u040f\u00c0"));
         Talk.due("edges of the letters", hits(talk, prop("FN", match("match-type='equals'",
@@ -249,6 +267,12 @@ public final class ReportTest {
         String limit = "<D:limit><D:nresults>%</D:nresults></D:limit>";
         Talk.due("two of three", sync(talk, "urn:x-sync:1-2", limit.replace("%", "2")),
             Talk.multi(etag("c2", 3) + etag("c1", 5) + over + token("urn:x-sync:1-5")));
+        Talk.due("one of three", sync(talk, "urn:x-sync:1-2", limit.replace("%", "1")),
+            Talk.multi(etag("c2", 3) + over + token("urn:x-sync:1-3")));
+        Talk.due("one of two", sync(talk, "urn:x-sync:1-3", limit.replace("%", "1")),
+            Talk.multi(etag("c1", 5) + over + token("urn:x-sync:1-5")));
+        Talk.due("one of all", sync(talk, "", limit.replace("%", "1")),
+            Talk.multi(etag("c2", 3) + over + token("urn:x-sync:1-3")));
         Talk.due("three of three", sync(talk, "urn:x-sync:1-2", limit.replace("%", "3")),
             Talk.multi(etag("c2", 3) + etag("c1", 5) + gone + token("urn:x-sync:1-6")));
         Talk.due("none of three", sync(talk, "urn:x-sync:1-2", limit.replace("%", "0")),

@@ -220,13 +220,13 @@ public final class TurnTest {
             none(3, "REV:" + date);
         }
         for (String date : new String[] {"20000229", "2000-02", "2000", "--0229", "--12", "---31", "T10", "T1010", "T101010",
-            "T10Z", "T1010-05", "T101010+0530", "20000101T10", "--0101T1010Z", "2000-01T10", "---01T10"}) {
+            "T10Z", "T1010-05", "T101010+0530", "20000101T10", "--0101T1010Z", "2000-01T10", "---01T10", "T235959Z", "T2359", "T00", "T23-23", "T00+0000", "T23-2359"}) {
             same(4, "BDAY:" + date);
             same(4, "ANNIVERSARY:" + date);
         }
         for (String date : new String[] {"", "2000-02-29", "19990229", "200002", "2000-13", "--0230", "--13", "---32", "---00",
             "--00", "-01", "T", "T24", "T1060", "T101", "T10:10", "T10+24", "T10+0160", "T10+1", "T10ZZ", "20000101T", "t10",
-            "2000T", "20000229 "}) {
+            "2000T", "20000229 ", "--010", "--01010", "---1", "---011", "T10101010", "T101010101", "2000-0", "20000"}) {
             none(4, "BDAY:" + date);
         }
         for (String stamp : new String[] {"20000101T101010", "20000101T101010Z", "20000101T101010-05", "20000101T101010+0530"}) {
@@ -280,6 +280,10 @@ public final class TurnTest {
             "NOTE:" + "x".repeat(70) + "\r\n " + "\u20ac".repeat(24) + "\r\n \u20ac");
         turns(4, 4, "NOTE:" + "x".repeat(70) + "\u00e9".repeat(38),
             "NOTE:" + "x".repeat(70) + "\r\n " + "\u00e9".repeat(37) + "\r\n \u00e9");
+        same(4, "NOTE:" + "x".repeat(66) + "\ud83d\ude00");
+        turns(4, 4, "NOTE:" + "x".repeat(67) + "\ud83d\ude00", "NOTE:" + "x".repeat(67) + "\r\n \ud83d\ude00");
+        same(4, "NOTE:" + "x".repeat(67) + "\u0915");
+        turns(4, 4, "NOTE:" + "x".repeat(68) + "\u0915", "NOTE:" + "x".repeat(68) + "\r\n \u0915");
         turns(4, 4, "NOTE:" + "x".repeat(69) + ",y", "NOTE:" + "x".repeat(69) + "\\\r\n ,y");
         turns(4, 4, "NOTE:" + "x".repeat(70) + "  y", "NOTE:" + "x".repeat(70) + "\r\n   y");
     }
@@ -352,6 +356,9 @@ public final class TurnTest {
             "DATA:image/png;base64,QUJD", "data:image/p_g;base64,QUJD", "data:image/png;x=y;base64,QUJD"}) {
             turns(4, 3, "SOUND;TYPE=a:" + uri, "SOUND;TYPE=A;VALUE=uri:" + uri);
         }
+        turns(4, 3, "URL:data:image/png;base64,QUJD\r\nX-P:data:image/png;base64,QUJD\r\nSOURCE:data:a;base64,QUJD",
+            "URL:data:image/png;base64,QUJD\r\nX-P:data:image/png;base64,QUJD\r\nX-SOURCE:data:a;base64,QUJD");
+        turns(4, 3, "PHOTO:data:/;base64,", "PHOTO;ENCODING=b;TYPE=:");
         turns(4, 3, "PHOTO;VALUE=text;ENCODING=q:x y", "PHOTO;VALUE=text;ENCODING=q:x y");
         turns(4, 3, "URL;VALUE=uri:http://x", "URL;VALUE=uri:http://x");
         turns(4, 3, "g.ADR;LABEL=\"a,b;^n\",c;TYPE=home;PREF=1:;;x", "g.ADR;TYPE=HOME,PREF:;;x\r\ng.LABEL;TYPE=HOME,PREF:a\\,b\\;\\n");

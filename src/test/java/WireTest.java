@@ -63,6 +63,9 @@ public final class WireTest {
         closes("no METHOD", head("").replace("OPTIONS", ""), bad);
         closes("no version", head("").replace(" HTTP/1.1", ""), bad);
         closes("HTTP/1.1x", head("").replace("HTTP/1.1", "HTTP/1.1x"), bad);
+        for (String version : new String[] {"HTTP/x.1", "HTTP/1x1", "HTTP/1.x", "HTTP/11", "HTTP/:.1", "HTTP/1./", "XTTP/1.1"}) {
+            closes(version, head("").replace("HTTP/1.1", version), bad);
+        }
         closes("http/1.1", head("").replace("HTTP", "http"), bad);
         closes("HTTP/1.0", head("").replace("HTTP/1.1", "HTTP/1.0"), "505 HTTP Version Not Supported");
         closes("505 ahead of no Host", "GET / HTTP/2.0\r\n\r\n", "505 HTTP Version Not Supported");
@@ -77,6 +80,8 @@ public final class WireTest {
             Talk.due("METHOD " + method, Talk.begun().come(head("").replace("OPTIONS", method)),
                 "HTTP/1.1 501 Not Implemented\r\nContent-Length: 0\r\n\r\n");
         }
+        goes("no S behind :", head("Content-Length:3\r\n") + "abc");
+        Talk.due("no S behind Depth:", Talk.begun().ask("ann", "PROPFIND /", "Depth:0\r\n", "").substring(9, 12), "207");
         String long1 = head("X: " + "y".repeat(1920) + "\r\n");
         String whole = head("X: " + "y".repeat(1920 + 2000 - long1.length()) + "\r\n");
         Talk.due("2000 bytes", whole.length(), 2000);
@@ -184,5 +189,28 @@ public final class WireTest {
         Talk.due("60000 bytes", Talk.bodyOf(edge.ask("ann", "PROPFIND /a/ann", "Depth: 0\r\n", last)).length(), 60000);
         Talk.due("60001 bytes", edge.ask("ann", "PROPFIND /a/ann", "Depth: 0\r\n", over),
             "HTTP/1.1 507 Insufficient Storage\r\nContent-Length: 0\r\n\r\n");
+        brim(last);
+    }
+
+    /** A PROPFIND whose answer has n bytes more than that of 0. */
+    private static String filler(int n) {
+        return Talk.request("ann", "PROPFIND /", "Depth: 0\r\n", "<propfind xmlns='DAV:' xmlns:x='n" + "\"".repeat(n / 6)
+            + "n".repeat(n % 6) + "'><prop><x:a/></prop></propfind>");
+    }
+
+    /** An OUT of just 65536 bytes, and one of a byte more. */
+    private static void brim(String largest) {
+        Talk talk = Talk.begun();
+        String large = Talk.request("ann", "PROPFIND /a/ann", "Depth: 0\r\n", largest);
+        int rest = 65536 - talk.come(large).length();
+        int n = 4900 + rest - talk.come(filler(4900)).length();
+        talk.tape(large + filler(n));
+        Talk.due("both go in", talk.house.come(0), 2);
+        Talk.due("65536 bytes", talk.house.out(), 65536);
+        Talk.due("it is open", talk.house.isOpen(0), true);
+        talk.tape(large + filler(n + 1) + filler(1));
+        Talk.due("a byte more", talk.house.come(0), 1);
+        Talk.due("the second answer is not given", talk.house.out(), 65536 - rest);
+        Talk.due("it is shut", talk.house.isOpen(0), false);
     }
 }

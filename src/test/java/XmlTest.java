@@ -36,7 +36,7 @@ public final class XmlTest {
         String[] wrong = {" ", "x", ALL + "x", "x" + ALL, ALL + ALL, " <?xml ?>" + ALL, "<?xml?>" + ALL, "<?xml\t?>" + ALL,
             "<?xml " + ALL, "<!-- -- -->" + ALL, "<!-->" + ALL, "<!--" + ALL, ALL + "<?x?>", "<!DOCTYPE a>" + ALL, "\ufeff" + ALL,
             ALL + "<![CDATA[]]>", "<![CDATA[ ]]>" + ALL, ALL + "&#32;", ALL.substring(0, ALL.length() - 1), OPEN,
-            ALL + "</propfind>", "<!-- a ---->" + ALL};
+            ALL + "</propfind>", "<!-- a ---->" + ALL, "<!----x-->" + ALL};
         for (String body : right) {
             right(body);
         }
@@ -46,7 +46,7 @@ public final class XmlTest {
     }
 
     private static void contents() {
-        String[] right = {"text", "<a/>", "<a\n/>", "<a></a\t>", "<_a-b.c1/>", "<!-- <a> & -->", "<![CDATA[ <&]] > ]]>",
+        String[] right = {"text", "<![CDATA[]]>", "<![CDATA[]]]>", "<a/>", "<a\n/>", "<a></a\t>", "<_a-b.c1/>", "<!-- <a> & -->", "<![CDATA[ <&]] > ]]>",
             "&lt;&gt;&amp;&quot;&apos;", "&#9;&#10;&#13;&#32;&#0000065;&#x41;&#xD7FF;&#xE000;&#xFFFD;&#x10000;&#x10fffF;",
             "]] >", "]]&gt;", "]]<!-- -->>", "\u007f", "\ud83d\ude00", "\"'=/>", "<a><b></b></a>"};
         String[] wrong = {"<a>", "</a>", "<a></b>", "<a></a b>", "<a></ a>", "< a/>", "<a/ >", "<a", "<1/>", "<-a/>", "<.a/>",
@@ -104,6 +104,8 @@ public final class XmlTest {
             {"<a xmlns:p='u' xmlns:q='u' p:b='' q:b=''/>", "400"}, {"<a xmlns:p='u' xmlns:q='v' p:b='' q:b='' b=''/>", "<a/>"},
             {"<p:a xmlns:p='u'/><p:b/>", "400"}, {"<D:a xmlns:D='u'/><D:a/>", "<x:a xmlns:x=\"u\"/><D:a/>"},
             {"<a xmlns='u'/><b xmlns='u'><c/></b><a xmlns='u'/>", "<x:a xmlns:x=\"u\"/><x:b xmlns:x=\"u\"/>"},
+            {"<a xmlns='u'/><a xmlns='v'/><b xmlns='v'/><a xmlns='v'/>",
+            "<x:a xmlns:x=\"u\"/><x:a xmlns:x=\"v\"/><x:b xmlns:x=\"v\"/>"},
             {"<p:a xmlns:p='DAV:'></p:a>", "<D:a/>"}, {"<p:a xmlns:p='DAV:' xmlns:q='DAV:'></q:a>", "400"},
             {"<a xmlns='\"&amp;&lt;&gt;'/>", "<x:a xmlns:x=\"&quot;&amp;&lt;&gt;\"/>"}, {"<xmlnsa xmlns:xmlnsa='u'/>", "<xmlnsa/>"}};
         for (String[] row : rows) {
@@ -125,6 +127,8 @@ public final class XmlTest {
             ten += " a" + i + "=''";
         }
         right(inside("<a" + ten + "/>"));
+        right(inside("<a" + ten + "\n/>"));
+        right(inside("<a" + ten + " ></a>"));
         wrong(inside("<a" + ten + " b=''/>"));
         wrong(inside("<a" + ten + " xmlns='u'/>"));
     }
