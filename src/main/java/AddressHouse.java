@@ -102,7 +102,7 @@ public final class AddressHouse {
             }
             if (clerk.status == 207) {
                 listing.start();
-                for (int k = 0; k < listing.entryCount; k++) {
+                for (int k = 0; k < listing.entryCount && !listing.body.over; k++) {
                     if (clerk.bringsCard(k)) {
                         scribe.write(clerk.version, listing.data);
                     }
@@ -248,7 +248,7 @@ public final class AddressHouse {
 
         /** The bytes as they stand in XML: in a text, or in an attribute's value. */
         void escaped(Row r, int from, int to, boolean inAttribute) {
-            for (int i = from; i < to; i++) {
+            for (int i = from; i < to && !over; i++) {
                 int b = r.at(i);
                 if (b == '&') {
                     text("&amp;");
@@ -1939,7 +1939,7 @@ public final class AddressHouse {
 
         /** Brings the line to the page, cut into pieces, unless it is not picked. */
         private void endLine() {
-            int chosen = picker == NONE ? NONE : chosen();
+            int chosen = choosy ? chosen() : NONE;
             if (choosy && chosen == NONE) {
                 return;
             }
@@ -3276,7 +3276,7 @@ public final class AddressHouse {
             body.text("<D:propstat><D:prop>");
             int inner = body.size;
             int most = mode == ASKED ? askedCount : KNOWN;
-            for (int i = 0; i < most; i++) {
+            for (int i = 0; i < most && !body.over; i++) {
                 int code = mode == ASKED ? codes[i] : i;
                 boolean leftOut = mode == ALLPROP && code >= SUPPORTED_DATA && code != DESCRIPTION;
                 boolean there = isThere(k, code);

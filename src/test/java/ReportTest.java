@@ -100,7 +100,7 @@ public final class ReportTest {
         Talk.due("an empty group", data(talk, "<C:address-data><C:prop name='.TEL'/></C:address-data>"), Talk.card4(""));
         Talk.due("picked from the turned card", data(talk,
             "<C:address-data version='3.0'><C:prop name='N'/></C:address-data>"), Talk.card3("N:Ann;;;;\r\n"));
-        Talk.due("C:allprop", data(talk, "<C:address-data><C:prop name='N'/><C:allprop/></C:address-data>"),
+        Talk.due("C:allprop", data(talk, "<C:address-data><C:prop name='FN' novalue='yes'/><C:allprop/></C:address-data>"),
             data(talk, "<C:address-data/>"));
         talk.put("/a/ann/b1/c1", Talk.plain("u1", "a<b>&\"c"));
         Talk.due("in XML", data(talk, "<C:address-data/>"), Talk.plain("u1", "a&lt;b&gt;&amp;\"c"));
