@@ -43,7 +43,7 @@ public final class PlaceTest {
         for (String path : there) {
             Talk.due("there is " + path, talk.status("ann", "OPTIONS " + path, "", ""), 200);
         }
-        String[] missing = {"x", "*", "//", "/x", "/p", "/p/", "/a", "/a/", "/p/ann/x", "/p/nobody/", "/a/nobody",
+        String[] missing = {"x", "*", "!", "~", "//", "/x", "/p", "/p/", "/a", "/a/", "/p/ann/x", "/p/nobody/", "/a/nobody",
             "/a/Ann/", "/a/ann//", "/a/ann/b1//", "/a/ann/b1/c.1_-/", "/a/ann/.b", "/a/ann/-b", "/a/ann/_b",
             "/a/ann/b%20", "/a/ann/b%3Fx", "/a/ann/b1/.c", "/a/ann/" + "b".repeat(21), "/a/ann/b1/" + "c".repeat(21),
             "/a/ann/b1/c%00", "/a/ann/b1/c%ff", "/a/annn/", "/a/an/", "http://x/"};

@@ -123,6 +123,7 @@ public final class WireTest {
         goes("no chunk", chunked + "0\r\n\r\n");
         goes("no chunk by four digits", chunked + "0000\r\n\r\n");
         goes("chunks", chunked + "3\r\nabc\r\n00a\r\n0123456789\r\nA\r\n0123456789\r\n00\r\n\r\n");
+        goes("four digits each", chunked + "0001\r\na\r\n0002\r\nbc\r\n0000\r\n\r\n");
         goes("3000 bytes", chunked + "BB7\r\n" + "x".repeat(2999) + "\r\n1\r\ny\r\n0\r\n\r\n");
         String bad = "400 Bad Request";
         closes("a fifth digit, at once", chunked + "00001", bad);

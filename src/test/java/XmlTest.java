@@ -53,7 +53,7 @@ public final class XmlTest {
             "<\u00e9/>", "<a:b:c/>", "<a:/>", "<:a/>", "]]>", "<![CDATA[x", "<![cdata[x]]>", "<!-- -- -->", "<!--", "<?x?>",
             "<!ELEMENT a>", "&", "&lt", "&foo;", "&LT;", "&;", "&#;", "&#x;", "&#X41;", "&#0;", "&#8;", "&#11;", "&#31;", "&#xD800;",
             "&#xDFFF;", "&#xFFFE;", "&#xFFFF;", "&#x110000;", "&#00000065;", "&#x00000041;", "&#6a;", "&#xg;", "& lt;", "\u0001",
-            "\u001f", "\ufffe", "\uffff", "<a><b></a></b>", "<p:1a xmlns:p='u'/>", "<p:-a xmlns:p='u'/>"};
+            "\u001f", "\ufffe", "\uffff", "<a><b></a></b>", "<p:1a xmlns:p='u'/>", "<p: xmlns:p='u'/>", "<a xmlns:='u'/>", "<p:-a xmlns:p='u'/>"};
         for (String text : right) {
             right(inside(text));
         }
