@@ -195,6 +195,9 @@ public final class PropertiesTest {
         Talk.due("the description", shown(talk, "C:addressbook-description"),
             "<C:addressbook-description> b </C:addressbook-description>");
         Talk.due("allprop has them", find(talk, "/a/ann/b1", "0", "").contains("</C:addressbook-description></D:prop>"), true);
+        patch(talk, set("<C:addressbook-description>\"&gt;&#38;</C:addressbook-description>"));
+        Talk.due("signs in a description", shown(talk, "C:addressbook-description"),
+            "<C:addressbook-description>\"&gt;&amp;</C:addressbook-description>");
         Talk.due("in their order", patch(talk, set("<D:displayname>1</D:displayname>") + "<D:other/>"
             + remove("<D:displayname/><C:addressbook-description>x</C:addressbook-description>")
             + set("<D:displayname>2</D:displayname>")), done("<D:displayname/><C:addressbook-description/>"));

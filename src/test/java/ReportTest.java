@@ -116,7 +116,7 @@ public final class ReportTest {
         String[][] rows = {{"/a/ann/b1/c2", c2}, {" \n/a/ann/b1/%632?x=%\t", c2}, {"http://x.org/a/ann/b1/c2", c2},
             {"http:///a/ann/b1/c2", c2}, {"/a/ann/b1/c2", c2}, {"/a/ann/b1/c3", ""}, {"/a/ann/b2/c1", ""},
             {"/a/ann/b1/", ""}, {"", ""}, {"x/a/ann/b1/c2", ""}, {"https://x/a/ann/b1/c2", ""}, {"http://x", ""},
-            {"/a/ann/b1/c2/", ""}, {"/a/ann/b1/%zz", ""}, {"/a&amp;b", ""},
+            {"/a/ann/b1/c2/", ""}, {"/a/ann/b1/%zz", ""}, {"/a&amp;b", ""}, {"/\"'", ""},
             {"/a/ann/b1/" + "%63%32", c2}, {"http://" + "y".repeat(300) + "/a/ann/b1/c2", c2}};
         for (String[] row : rows) {
             hrefs += "<D:href>" + row[0] + "</D:href>";
@@ -158,6 +158,12 @@ public final class ReportTest {
                 "name='TEL' test='allof'"), "c1"},
             {prop("TEL", "<C:param-filter name='TYPE'><C:is-not-defined/></C:param-filter>"), "c1"},
             {prop("home.TEL", "<C:param-filter name='TYPE'><C:is-not-defined/></C:param-filter>"), ""},
+            {prop("home.TEL", "<C:param-filter name='TYPE'><C:is-not-defined/><C:text-match>c</C:text-match></C:param-filter>"), ""},
+            {prop("FN", "<C:text-match>zz</C:text-match><C:text-match>nn</C:text-match>"), "c1"},
+            {prop("FN", "<C:text-match>o</C:text-match><C:text-match match-type='starts-with'>b</C:text-match>").replace(
+                "name=\"FN\"", "name='FN' test='allof'"), "c2"},
+            {prop("FN", "<C:text-match>o</C:text-match>") + prop("UID", "<C:text-match match-type='ends-with'>U1</C:text-match>"),
+                "c1c2"},
             {prop("FN", "<C:param-filter name='TYPE'/>"), ""}, {prop("FN", "<C:param-filter/>"), "400"},
             {prop("TEL", "<C:param-filter name='type'><C:text-match match-type='equals'>A,b</C:text-match>"
                 + "<C:text-match collation='x'/></C:param-filter>"), "c1"},

@@ -51,6 +51,8 @@ public final class WireTest {
         closes("a value with bytes above 126", head("X: \u00e9\r\n"), bad);
         closes("a value with 13", head("X: a\rb\r\n"), bad);
         closes("a value with 10", head("X: a\nb\r\n"), bad);
+        closes("10 between headers", head("X: a\nY: b\r\n"), bad);
+        closes("13 between headers", head("X: a\rzY: b\r\n"), bad);
         closes("a folded header", head("X: a\r\n b\r\n"), bad);
         closes("an empty HEAD", "\r\n\r\n", bad);
         closes("an empty line ahead", "\r\n" + head(""), bad);
