@@ -3200,6 +3200,15 @@ public final class AddressHouse {
             return NONE;
         }
 
+        /** A name stands in an answer only once, so that what is not allowed tells for all of its name ahead of it. */
+        void refuse(int i) {
+            for (int j = 0; j <= i && i < askedCount; j++) {
+                if (xml.isSameName(asked[j], asked[i])) {
+                    codes[j] = 403;
+                }
+            }
+        }
+
         /** The number of the property that an element names, or NONE. */
         int codeOf(int e) {
             int[] it = xml.elements[e];
@@ -3968,9 +3977,11 @@ public final class AddressHouse {
             listing.add(House.BOOK, house.book, 0);
             boolean all = true;
             for (int i = 0; i < listing.askedCount; i++) {
-                boolean may = mayPatch(listing.asked[i], listing.codeOf(listing.asked[i]));
-                listing.codes[i] = may ? 424 : 403;
-                all = all && may;
+                listing.codes[i] = 424;
+                if (!mayPatch(listing.asked[i], listing.codeOf(listing.asked[i]))) {
+                    listing.refuse(i);
+                    all = false;
+                }
             }
             for (int i = 0; i < listing.askedCount && all; i++) {
                 patch(listing.asked[i], listing.codeOf(listing.asked[i]));

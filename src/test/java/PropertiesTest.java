@@ -17,6 +17,7 @@ public final class PropertiesTest {
         asked();
         order();
         patches();
+        namesTwice();
         readers();
         refusals();
         Talk.finish();
@@ -212,17 +213,44 @@ public final class PropertiesTest {
         Talk.due("none", shown(talk, "D:displayname"), "404");
         Talk.due("60 bytes", patch(talk, set("<D:displayname>" + "\u00e9".repeat(30) + "</D:displayname>")),
             done("<D:displayname/>"));
-        String mixed = patch(talk, set("<D:displayname>" + "y".repeat(61) + "</D:displayname><C:addressbook-description>n"
-            + "</C:addressbook-description><D:getetag/>") + remove("<R:readers/><y xmlns=''/><D:getetag/>"));
-        Talk.due("not all are allowed", mixed, Talk.multi("<D:response><D:href>/a/ann/b1/</D:href>"
-            + Talk.propstat("403 Forbidden", "<D:displayname/><D:getetag/><y/>")
-            + Talk.propstat("424 Failed Dependency",
-                "<C:addressbook-description/><x:readers xmlns:x=\"urn:x-readers\"/>") + "</D:response>"));
+        Talk.due("not all are allowed", patch(talk, set("<D:displayname>" + "y".repeat(61)
+            + "</D:displayname><C:addressbook-description>n</C:addressbook-description><D:getetag/>")
+            + remove("<R:readers/><y xmlns=''/><D:getetag/>")), refused("<D:displayname/><D:getetag/><y/>",
+            "<C:addressbook-description/><x:readers xmlns:x=\"urn:x-readers\"/>"));
         Talk.due("then nothing is done", shown(talk, "C:addressbook-description"), "404");
-        Talk.due("a name twice, first allowed", patch(talk, set("<D:displayname>a</D:displayname><D:displayname>"
-            + "y".repeat(61) + "</D:displayname><D:owner/>")), Talk.multi("<D:response><D:href>/a/ann/b1/</D:href>"
-            + Talk.propstat("403 Forbidden", "<D:owner/>") + Talk.propstat("424 Failed Dependency", "<D:displayname/>")
-            + "</D:response>"));
+    }
+
+    /** The answer to a PROPPATCH of which not all is allowed; without others no PROPSTAT of 424. */
+    private static String refused(String forbidden, String others) {
+        return Talk.multi("<D:response><D:href>/a/ann/b1/</D:href>" + Talk.propstat("403 Forbidden", forbidden)
+            + (others.isEmpty() ? "" : Talk.propstat("424 Failed Dependency", others)) + "</D:response>");
+    }
+
+    private static void namesTwice() {
+        Talk talk = Talk.begun();
+        talk.ann("MKCOL /a/ann/b1");
+        String right = "<D:displayname>a</D:displayname>";
+        String wrong = "<D:displayname>" + "y".repeat(61) + "</D:displayname>";
+        String name = "<D:displayname/>";
+        String note = "<C:addressbook-description/>";
+        Talk.due("the second is not allowed", patch(talk, set(right + wrong)), refused(name, ""));
+        Talk.due("the first is not allowed", patch(talk, set(wrong + right)), refused(name, ""));
+        Talk.due("the one between is not allowed", patch(talk, set(right + wrong + right)), refused(name, ""));
+        Talk.due("neither is allowed", patch(talk, set(wrong + wrong)), refused(name, ""));
+        Talk.due("removed, then not allowed", patch(talk, remove(name) + set(wrong)), refused(name, ""));
+        Talk.due("not allowed, then removed", patch(talk, set(wrong) + remove(name)), refused(name, ""));
+        Talk.due("another one twice beside it", patch(talk, set(note + right + wrong + note)), refused(name, note));
+        Talk.due("the other one is not allowed", patch(talk, set(right + right + "<D:owner/>")),
+            refused("<D:owner/>", name));
+        Talk.due("where the name came first", patch(talk, set(right + "<D:owner/>" + note + wrong)),
+            refused(name + "<D:owner/>", note));
+        Talk.due("the same letters in another namespace", patch(talk, set(right + "<C:displayname/>")),
+            refused("<C:displayname/>", name));
+        String readers = "<x:readers xmlns:x=\"urn:x-readers\"/>";
+        Talk.due("readers twice", patch(talk, set("<R:readers>bob</R:readers><R:readers>ann</R:readers>" + right)),
+            refused(readers, name));
+        Talk.due("no readers came", shown(talk, "R:readers"), readers);
+        Talk.due("no name came", shown(talk, "D:displayname"), "404");
     }
 
     private static void readers() {
