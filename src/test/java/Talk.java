@@ -1,5 +1,9 @@
+import java.lang.reflect.Method;
+import java.lang.reflect.Modifier;
 import java.nio.charset.StandardCharsets;
+import java.util.Arrays;
 import java.util.Base64;
+import java.util.Comparator;
 
 /** Speaks with an AddressHouse in texts, and counts what is not as it is due. */
 final class Talk {
@@ -7,6 +11,7 @@ final class Talk {
     static final String SPACES = " xmlns:D=\"DAV:\" xmlns:C=\"urn:ietf:params:xml:ns:carddav\"";
     private static int checked = 0;
     private static int wrong = 0;
+    private static String running = "";
 
     final AddressHouse house = new AddressHouse();
 
@@ -14,8 +19,26 @@ final class Talk {
         checked++;
         if (!got.equals(want)) {
             wrong++;
-            System.out.println(what + "\n  answered " + got + "\n  due is   " + want);
+            System.out.println(running + what + "\n  answered " + got + "\n  due is   " + want);
         }
+    }
+
+    /** Runs every test of a class: its static methods without parameters and without an answer. */
+    static void all(Class<?> tests) throws ReflectiveOperationException {
+        Method[] methods = tests.getDeclaredMethods();
+        Arrays.sort(methods, Comparator.comparing(Method::getName));
+        for (Method method : methods) {
+            boolean test = Modifier.isStatic(method.getModifiers()) && method.getParameterCount() == 0
+                && method.getReturnType() == void.class;
+            if (test) {
+                int before = checked;
+                running = tests.getName() + "." + method.getName() + ": ";
+                method.invoke(null);
+                due("tests something", checked > before, true);
+            }
+        }
+        running = "";
+        finish();
     }
 
     static void finish() {
@@ -110,10 +133,22 @@ final class Talk {
         return ask("ann", line, "", "");
     }
 
-    /** The number of the status of ann's request, or 0 without an answer. */
+    /** The number of the status of a user's request, or 0 without an answer. */
     int status(String who, String line, String headers, String body) {
-        String answer = ask(who, line, headers, body);
+        return statusOf(ask(who, line, headers, body));
+    }
+
+    int status(String line) {
+        return status("ann", line, "", "");
+    }
+
+    static int statusOf(String answer) {
         return answer.length() < 12 ? 0 : Integer.parseInt(answer.substring(9, 12));
+    }
+
+    /** An answer without a body; its headers end with CRLF each. */
+    static String bare(String status, String headers) {
+        return "HTTP/1.1 " + status + "\r\n" + headers + "Content-Length: 0\r\n\r\n";
     }
 
     int put(String path, String card) {
