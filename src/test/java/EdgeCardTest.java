@@ -48,7 +48,7 @@ public final class EdgeCardTest {
         right(4, "NOTE:\u00c2\u0080", "NOTE:\u00df\u00bf", "NOTE:\u00e0\u00a0\u0080", "NOTE:\u00ed\u009f\u00bf", "NOTE:\u00ee\u0080\u0080",
             "NOTE:\u00ef\u00bf\u00be\u00ef\u00bf\u00bf", "NOTE:\u00f0\u0090\u0080\u0080", "NOTE:\u00f4\u008f\u00bf\u00bf",
             "X;A=\u00c3\u00a4:\u00c3\u00a4");
-        wrong(4, "NOTE:\u0080", "NOTE:\u00bf", "NOTE:\u00c0\u0080", "NOTE:\u00c1\u00bf", "NOTE:\u00c2", "NOTE:\u00c2A", "NOTE:\u00c2\u00c2\u0080",
+        wrong(4, "NOTE:\u0080", "NOTE:\u00bf", "NOTE:\u00c0\u0080", "NOTE:\u00c1\u00bf", "NOTE:\u00c2", "NOTE:\u00c2A", "NOTE:\u00c2\u007f", "NOTE:\u00c2\u00c2\u0080",
             "NOTE:\u00e0\u009f\u00bf", "NOTE:\u00e0\u00a0", "NOTE:\u00ed\u00a0\u0080", "NOTE:\u00ed\u00bf\u00bf", "NOTE:\u00f0\u008f\u00bf\u00bf",
             "NOTE:\u00f0\u0090\u0080", "NOTE:\u00f4\u0090\u0080\u0080", "NOTE:\u00f5\u0080\u0080\u0080", "NOTE:\u00ff", "X;A=\u0080:", "X-Y:\u00e9");
     }
@@ -116,6 +116,15 @@ public final class EdgeCardTest {
     static void valuesOfParameters() {
         right(4, "X;A=:", "X;A=,:", "X;A=1,2,3,4,5,6,7,8:", "X;A=,,,,,,,:", "X;A=\"\",\"\",\"\",\"\",\"\",\"\",\"\",\"\":");
         wrong(4, "X;A=1,2,3,4,5,6,7,8,9:", "X;A=,,,,,,,,:");
+    }
+
+    /** Part IV, LINE: "values with ',' between, 1 to 8" (again and again, each card alone). */
+    static void manyCards() {
+        String line = "X;A=1,2,3,4,5,6,7,8;B=1,2,3,4,5,6,7,8;C=1,2,3,4,5,6,7,8;D=1,2,3,4,5,6,7,8;E=1,2,3,4,5,6,7,8;F=1,2,3,4,5,6,7,8:";
+        String card = Talk.card4(INNER_4 + (line + "\r\n").repeat(38));
+        for (int round = 0; round < 4; round++) {
+            Talk.due("card " + round, TALK.turn(0, card).replace("\r\n ", ""), card);
+        }
     }
 
     /** Part IV, LINE: "each '"' bytes but '"' and 9 '"', or bytes but '"' ';' ':' ',' and 9, none also". */
@@ -222,6 +231,8 @@ public final class EdgeCardTest {
         isCard(Talk.card3("FN:A\r\nUID:u\r\nN:;;;;;\r\n"), false);
         right(4, "GENDER:", "GENDER:M;a,b", "GENDER:\\;;");
         wrong(4, "GENDER:;;");
+        written(4, "GENDER:\\N;a\\,b,c", "GENDER:\\n;a\\,b,c");
+        Talk.due("N", TALK.turn(0, Talk.card4(INNER_4 + "N:a\\N,b\\,;c\\;\r\n")), Talk.card4(INNER_4 + "N:a\\n,b\\,;c\\;\r\n"));
         written(4, "ADR:a;;\\;", "ADR:a;;\\;");
     }
 
@@ -279,7 +290,8 @@ public final class EdgeCardTest {
         dates(3, "BDAY REV", new String[] {"2000-01-02", "20000102", "0000-01-01", "9999-12-31", "20000102T000000", "2000-01-02T00:00:00",
             "2000-01-02T000000", "20000102T00:00:00"}, new String[] {"", "2000", "2000-01", "200001", "2000-0102", "200001-02", "2000-1-2", "20000102T",
             "2000-01-02 00:00:00", "2000-01-02t00:00:00", "T000000", "--0102", "---02", "20000102Z", "x", "2000010", "200001022", "+2000-01-02",
-            "2000-01-02-"});
+            "2000-01-02-", "x0000102", "200x0102", "200/0102", "200:0102", "x000-01-02", "2000x102", "20000x02", "2000-x1-02", "2000-0x-02",
+            "2000-01x02", "2000-01/02", "2000-01-x2", "2000-01-0x", "200001x2", "2000010x", "2000-01-0/", "2000-01-0:"});
     }
 
     /** Part IV, DATE: "T3: hh:mm:ss or hhmmss, then perhaps Z or a sign + - and hh:mm or hhmm". */
@@ -289,7 +301,9 @@ public final class EdgeCardTest {
             "20000102T240000", "20000102T006000", "20000102T000060", "20000102T00:0000", "20000102T0000:00", "20000102T00", "20000102T0000",
             "20000102T00:00", "20000102T000000z", "20000102T000000ZZ", "20000102T000000+", "20000102T000000+00", "20000102T000000+2400",
             "20000102T000000+0060", "20000102T000000+24:00", "20000102T000000+00:60", "20000102T000000+000", "20000102T000000+00:0",
-            "20000102T000000+00000", "20000102T000000Z+0000", "20000102T000000 ", "20000102T000000*0000"});
+            "20000102T000000+00000", "20000102T000000Z+0000", "20000102T000000 ", "20000102T000000*0000",
+            "20000102T00000:", "20000102T00000/", "20000102T0:0000", "20000102T000:00", "20000102T00:00x00", "20000102T00:00-00",
+            "20000102T0000x0", "20000102Tx00000", "20000102T000000+0:00", "20000102T000000+000:", "20000102T000000+x000"});
     }
 
     /** Part IV, DATE: "in 4.0 D4, D4 'T' T4 or 'T' T4" with "D4: YYYYMMDD, YYYY-MM, YYYY, --MMDD, --MM, ---DD". */
@@ -297,7 +311,8 @@ public final class EdgeCardTest {
         dates(4, "BDAY ANNIVERSARY", new String[] {"20000102", "2000-01", "2000", "--0102", "--01", "---02", "20000102T00", "2000-01T00", "2000T00",
             "--0102T00", "--01T00", "---02T00", "T00"}, new String[] {"", "2000-01-02", "200001", "2000-1", "2000-0102", "-0102", "--", "---", "--1", "--010",
             "--01-02", "---1", "---012", "----01", "20000102T", "T", "200", "20000", "2000010", "200001022", "2000-", "2000-01-", "20000102t00", "--T00", "x",
-            "-2000"});
+            "-2000", "x000", "200x", "20x0", "200/", "200:", "x0000102", "20x00102", "20000x02", "2000010x", "2000x102", "2000-1x", "2000-x1", "2x00-01",
+            "--x1", "--0x", "--01x2", "--010x", "---x1", "---0x", "---0:", "--0:", "2000-0:"});
     }
 
     /** Part IV, DATE: "T4: hh, hhmm or hhmmss, then perhaps Z or a sign and hh or hhmm". */
@@ -305,7 +320,8 @@ public final class EdgeCardTest {
         String[] right = {"00", "23", "0000", "2359", "000000", "235959", "00Z", "0000Z", "000000Z", "00+00", "00-2359", "0000+23", "0000-0000", "000000+00",
             "000000-2359"};
         String[] wrong = {"", "0", "24", "000", "0060", "2400", "00000", "000060", "006000", "240000", "0000000", "00:00", "00z", "00ZZ", "00+", "00+0", "00+24",
-            "00+000", "00+0060", "00+00000", "00+00:00", "Z", "+00", "00 ", "00+00Z"};
+            "00+000", "00+0060", "00+00000", "00+00:00", "Z", "+00", "00 ", "00+00Z", "00000000",
+            "0:", "0/", "x0", "0x", "000:", "00000:", "00+0:", "00+000:", "00x000", "0000x0"};
         for (int i = 0; i < right.length; i++) {
             right[i] = "20000102T" + right[i];
             right(4, "BDAY:" + right[i].substring(8));
@@ -349,6 +365,22 @@ public final class EdgeCardTest {
         }
         right(4, "BDAY:--0229", "BDAY:---31", "BDAY:---01");
         wrong(4, "BDAY:--0230", "BDAY:---32", "BDAY:---00");
+    }
+
+    /** Part IV, DATE: "hh 00 .. 23, mm, ss 00 .. 59.)" */
+    static void hours() {
+        for (int n = 0; n <= 99; n++) {
+            String two = (n < 10 ? "0" : "") + n;
+            isCard(with(3, "BDAY:20000102T" + two + "0000"), n <= 23);
+            isCard(with(4, "BDAY:T" + two), n <= 23);
+            isCard(with(4, "BDAY:T00+" + two), n <= 23);
+            isCard(with(3, "REV:20000102T00:" + two + ":00"), n <= 59);
+            isCard(with(3, "REV:20000102T00:00:" + two), n <= 59);
+            isCard(with(3, "REV:20000102T00:00:00-00:" + two), n <= 59);
+            isCard(with(4, "REV:20000102T00" + two + "00"), n <= 59);
+            isCard(with(4, "REV:20000102T0000" + two), n <= 59);
+            isCard(with(4, "REV:20000102T000000-00" + two), n <= 59);
+        }
     }
 
     /** Part IV, STAMP: "in 4.0 YYYYMMDD 'T' hhmmss, then perhaps Z or a sign and hh or hhmm". */

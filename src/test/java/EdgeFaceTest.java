@@ -88,6 +88,25 @@ public final class EdgeFaceTest {
         Talk.due("outAt 0 throws", outThrows(house, 0), true);
     }
 
+    /** The public face: "public final class AddressHouse" (its members, and no others). */
+    static void thePublicFace() {
+        StringBuilder face = new StringBuilder();
+        for (java.lang.reflect.Field field : AddressHouse.class.getFields()) {
+            face.append(field.getName()).append(' ');
+        }
+        java.util.TreeSet<String> methods = new java.util.TreeSet<>();
+        for (java.lang.reflect.Method method : AddressHouse.class.getDeclaredMethods()) {
+            if (!java.lang.reflect.Modifier.isPrivate(method.getModifiers())) {
+                methods.add(method.getReturnType() + " " + method.getName() + "/" + method.getParameterCount());
+            }
+        }
+        Talk.due("constants", face.toString(), "NONE ");
+        Talk.due("methods", methods.toString(), "[boolean end/1, boolean feed/5, boolean isOpen/1, boolean shut/1, int come/1, int count/1, "
+            + "int open/0, int out/0, int outAt/1, int turn/1, int user/0]");
+        Talk.due("constructors", AddressHouse.class.getConstructors().length, 1);
+        Talk.due("final", java.lang.reflect.Modifier.isFinal(AddressHouse.class.getModifiers()), true);
+    }
+
     /** The constants: "There is none." */
     static void theConstant() {
         Talk.due("NONE", AddressHouse.NONE, -1);
@@ -214,7 +233,9 @@ public final class EdgeFaceTest {
         Talk talk = new Talk();
         for (byte b : new byte[] {0, 9, 10, 13, 31, 32, 127, -128, -1}) {
             talk.tape(new byte[] {'a', ':', 'x', b});
-            Talk.due("byte " + b, talk.house.user(), -1);
+            Talk.due("byte " + b + " last", talk.house.user(), -1);
+            talk.tape(new byte[] {'a', ':', b, 'x'});
+            Talk.due("byte " + b + " first", talk.house.user(), -1);
         }
         Talk.due("33 and 126", talk.user("a:!~"), 0);
         Talk.due(": is one of them", talk.user("b::"), 1);

@@ -65,6 +65,20 @@ public final class EdgeMethodTest {
         Talk.due("a BOOK made anew is empty", talk.status("GET /a/ann/b1/c1"), 404);
     }
 
+    /** Part III, SYNC: "A BOOK that is made anew is another one." (nothing that was told of the old one is told of it) */
+    static void aBookMadeAnew() {
+        Talk talk = filled();
+        talk.ask("ann", "PROPPATCH /a/ann/b1", "", Talk.root("D:propertyupdate", "<D:set><D:prop><D:displayname>n</D:displayname>"
+            + "<C:addressbook-description>d</C:addressbook-description><R:readers>bob</R:readers></D:prop></D:set>"));
+        Talk.due("bob reads", talk.status("bob", "OPTIONS /a/ann/b1", "", ""), 200);
+        talk.ann("DELETE /a/ann/b1");
+        talk.ann("MKCOL /a/ann/b1");
+        Talk.due("no displayname, no description", talk.ask("ann", "PROPFIND /a/ann/b1", "Depth: 0\r\n", Talk.root("D:propfind",
+            "<D:prop><D:displayname/><C:addressbook-description/></D:prop>")), Talk.multi("<D:response><D:href>/a/ann/b1/</D:href>"
+            + Talk.propstat("404 Not Found", "<D:displayname/><C:addressbook-description/>") + "</D:response>"));
+        Talk.due("no readers", talk.status("bob", "OPTIONS /a/ann/b1", "", ""), 403);
+    }
+
     /** Part III: "GET: 200 with 'ETag: ', the card's text as its body, of Content-Type 'text/vcard; charset=utf-8'; HEAD likewise." */
     static void gets() {
         Talk talk = filled();
@@ -110,7 +124,7 @@ public final class EdgeMethodTest {
             accepts(talk, type + ";q=0.1;x", "4");
         }
         for (String type : new String[] {"*/vcard", "text/html", "text", "text/", "/vcard", "text/vcard/x", "text/vcards", "xtext/vcard", "*",
-            "**/*", "text/x-vcard", "text/*x"}) {
+            "**/*", "text/x-vcard", "text/*x", "xext/vcard"}) {
             accepts(talk, type, "406");
             accepts(talk, type + ",text/vcard;version=3.0", "3");
         }
@@ -139,6 +153,7 @@ public final class EdgeMethodTest {
         accepts(talk, "text/vcard;version=4.0;version=3.0", "4");
         accepts(talk, "text/vcard;version", "4");
         accepts(talk, "text/vcard;xversion=5.0", "4");
+        accepts(talk, "text/vcard;xersion=5.0", "4");
     }
 
     /** Part III, Accept: "No such item: 406. Without Accept: as it is." */
@@ -161,7 +176,7 @@ public final class EdgeMethodTest {
         Talk talk = filled();
         String refused = Talk.bare("415 Unsupported Media Type", "");
         Talk.due("none", put(talk, "/a/ann/b1/c1", "", CARD), refused);
-        for (String type : new String[] {"", ";", "text/vcar", "text/vcards", "text/x-vcard", "text/ vcard", "text/vcard, text/vcard",
+        for (String type : new String[] {"", ";", "xext/vcard", "text/vcar", "text/vcards", "text/x-vcard", "text/ vcard", "text/vcard, text/vcard",
             "text/*", "text/vcard\t;x", "; text/vcard"}) {
             Talk.due("Content-Type: " + type, put(talk, "/a/ann/b1/c1", "Content-Type: " + type + "\r\n", CARD), refused);
         }
@@ -206,6 +221,8 @@ public final class EdgeMethodTest {
         Talk.due("a new place", put(talk, "/a/ann/b1/c3", VCARD, Talk.plain("u1", "A")), conflict("/a/ann/b1/c1"));
         Talk.due("the other one's", put(talk, "/a/ann/b1/c3", VCARD, Talk.plain("u2", "A")), conflict("/a/ann/b1/c2"));
         Talk.due("by what it means", put(talk, "/a/ann/b1/c3", VCARD, Talk.plain("\r\n u\r\n\t2", "A")), conflict("/a/ann/b1/c2"));
+        talk.put("/a/ann/b2/c5", Talk.plain("a\\,b\\n", "A"));
+        Talk.due("by what it means in other signs", put(talk, "/a/ann/b2/c6", VCARD, Talk.plain("a,b\\N", "A")), conflict("/a/ann/b2/c5"));
         Talk.due("not LIKE", talk.put("/a/ann/b1/c3", Talk.plain("U1", "A")), 201);
         Talk.due("another BOOK", talk.put("/a/ann/b2/c1", Talk.plain("u1", "A")), 201);
         talk.ann("DELETE /a/ann/b1/c2");
@@ -248,6 +265,9 @@ public final class EdgeMethodTest {
         Talk.due("as it is written", Talk.bodyOf(talk.ann("GET /a/ann/b2/c1")), Talk.card3("FN:A\\,\\n\r\nN:B\r\nUID:u\\;\r\n"));
         Talk.due("else", put(talk, "/a/ann/b2/c1", VCARD, Talk.plain("u\\;", "A")), "HTTP/1.1 204 No Content\r\nETag: \"5\"\r\n\r\n");
         Talk.due("the new one", Talk.bodyOf(talk.ann("GET /a/ann/b2/c1")), Talk.plain("u\\;", "A"));
+        talk.ask("ann", "GET /a/ann/b2/c1", "Accept: text/vcard;version=3.0\r\n", "");
+        talk.put("/a/ann/b2/c1", Talk.plain("u\\;", "B"));
+        Talk.due("behind a GET of the other version", Talk.bodyOf(talk.ann("GET /a/ann/b2/c1")), Talk.plain("u\\;", "B"));
     }
 
     /** Part III, PUT: "kept as it is written by the house" (which may be more than 800 bytes). */

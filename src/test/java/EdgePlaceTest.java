@@ -67,7 +67,7 @@ public final class EdgePlaceTest {
         Talk talk = Talk.begun();
         String ann = base64("ann:pw");
         Talk.due("none", with(talk, ""), REFUSED);
-        for (String value : new String[] {"", "Basic", ann, "Basi " + ann, "Basics " + ann, "Digest " + ann, "Basic: " + ann,
+        for (String value : new String[] {"", "Basic", ann, "Basi " + ann, "Xasic " + ann, "Basics " + ann, "Digest " + ann, "Basic: " + ann,
             "Basic " + ann + " x", "Basic " + ann + ","}) {
             refuses(talk, value);
         }
@@ -176,7 +176,9 @@ public final class EdgePlaceTest {
     /** Part II, PATHS: "b and c are 1 to 20 letters, digits, - _ . , the first one a letter or digit" (of BOOKS). */
     static void bookNames() {
         for (String name : new String[] {"a", "z", "A", "Z", "0", "9", "a-_.", "b".repeat(20), "9" + "-".repeat(19)}) {
-            Talk.due("BOOK " + name, Talk.begun().status("MKCOL /a/ann/" + name), 201);
+            Talk talk = Talk.begun();
+            Talk.due("BOOK " + name, talk.status("MKCOL /a/ann/" + name), 201);
+            Talk.due("BOOK " + name + " is there", talk.status("OPTIONS /a/ann/" + name), 200);
         }
         for (String name : new String[] {"b".repeat(21), "-", "_", ".", "-a", "_a", ".a", "a~", "a+", "a@", "a[", "a`", "a%7b", "a/%20/",
             "a%00", "a,", "a:", "%c3%a4"}) {
@@ -190,6 +192,7 @@ public final class EdgePlaceTest {
         Talk talk = filled();
         for (String name : new String[] {"a", "z", "A", "Z", "0", "9", "a-_.", "c".repeat(20), "9" + ".".repeat(19)}) {
             Talk.due("CARD " + name, talk.put("/a/ann/b1/" + name, Talk.plain("u" + name, "A")), 201);
+            Talk.due("CARD " + name + " is there", Talk.bodyOf(talk.ann("GET /a/ann/b1/" + name)), Talk.plain("u" + name, "A"));
         }
         for (String name : new String[] {"c".repeat(21), "-", "_", ".", "-a", "_a", ".a", "a~", "a+", "a@", "a[", "a`", "a%7b", "a%20", "a%00",
             "a,", "a:", "%c3%a4", "c1/", "c1%2f", "c1/c2"}) {

@@ -92,6 +92,7 @@ public final class EdgePropertyTest {
             Talk.due("and " + more, find(talk, "ann", "/", "0", wide(space, rest % 20 + more)), Talk.bare("507 Insufficient Storage", ""));
         }
         Talk.due("it is open", talk.house.isOpen(0), true);
+        Talk.due("the next one is answered", Talk.statusOf(find(talk, "ann", "/", "0", "")), 207);
     }
 
     /** Part III, RESPONSE: "then one PROPSTAT of 200 if there are any such properties, then one of 404 (403, 424)". */
@@ -134,6 +135,9 @@ public final class EdgePropertyTest {
             + "<x:z xmlns:x=\"http://www.w3.org/XML/1998/namespace\"/><x:z xmlns:x=\"DAV\"/>"));
         Talk.due("known names elsewhere", asked(talk, BOOK, "<C:owner/><D:max-resource-size/><readers/><C:displayname/>"),
             both(BOOK, "", "<C:owner/><D:max-resource-size/><readers/><C:displayname/>"));
+        Talk.due("names are not LIKE", asked(talk, BOOK, "<D:Owner/><D:OWNER/>"), both(BOOK, "", "<D:Owner/><D:OWNER/>"));
+        Talk.due("C:address-data is only for REPORT", asked(talk, "/a/ann/b1/c1", "<C:address-data/>"),
+            both("/a/ann/b1/c1", "", "<C:address-data/>"));
     }
 
     /** Part III, RESPONSE: "In texts & < > are written &amp; &lt; &gt; , in values of attributes " as &quot; , too." */
@@ -203,6 +207,8 @@ public final class EdgePropertyTest {
         }
         Talk.due("another PRINCIPAL", find(talk, "bob", "/p/ann", "0", prop("<C:addressbook-home-set/><D:current-user-principal/>")),
             both("/p/ann/", "<C:addressbook-home-set><D:href>/a/ann/</D:href></C:addressbook-home-set>" + me, ""));
+        talk.put("/a/ann/b1/c2", Talk.plain("u2", "A"));
+        Talk.due("a second CARD", find(talk, "bob", "/a/ann/b1/c2", "0", prop("<D:owner/>")), both("/a/ann/b1/c2", owner, ""));
     }
 
     /** Part III, PROPERTIES: "and behind it, if all is allowed and it is no o, p: '<D:privilege><D:write/></D:privilege>'". */
@@ -212,19 +218,45 @@ public final class EdgePropertyTest {
         String read = "<D:privilege><D:read/></D:privilege>";
         String write = "<D:privilege><D:write/></D:privilege>";
         String[][] rows = {{"ann", "/", ""}, {"ann", "/p/ann/", ""}, {"ann", "/p/bob/", ""}, {"ann", "/a/ann/", write}, {"ann", BOOK, write},
-            {"ann", "/a/ann/b1/c1", write}, {"bob", BOOK, ""}, {"bob", "/a/ann/b1/c1", ""}, {"bob", "/a/bob/", write}};
+            {"ann", "/a/ann/b1/c1", write}, {"ann", "/a/ann/b1/c2", write}, {"bob", BOOK, ""}, {"bob", "/a/ann/b1/c1", ""},
+            {"bob", "/a/ann/b1/c2", ""}, {"bob", "/a/bob/", write}};
+        talk.put("/a/ann/b1/c2", Talk.plain("u2", "A"));
         for (String[] row : rows) {
             Talk.due(row[0] + " at " + row[1], find(talk, row[0], row[1], "0", prop("<D:current-user-privilege-set/>")), both(row[1],
                 "<D:current-user-privilege-set>" + read + row[2] + "</D:current-user-privilege-set>", ""));
         }
     }
 
+    /** Part III, PROPERTIES: "D:supported-report-set b: for C:addressbook-multiget, C:addressbook-query, D:sync-collection" and "C:supported-address-data b: '<C:address-data-type content-type="text/vcard" version="3.0"/>' and with 4.0." */
+    static void supported() {
+        String reports = "";
+        for (String name : new String[] {"C:addressbook-multiget", "C:addressbook-query", "D:sync-collection"}) {
+            reports += "<D:supported-report><D:report><" + name + "/></D:report></D:supported-report>";
+        }
+        String data = "<C:address-data-type content-type=\"text/vcard\" version=\"%\"/>";
+        Talk.due("a BOOK", asked(filled(), BOOK, "<D:supported-report-set/><C:supported-address-data/>"), both(BOOK, "<D:supported-report-set>"
+            + reports + "</D:supported-report-set><C:supported-address-data>" + data.replace("%", "3.0") + data.replace("%", "4.0")
+            + "</C:supported-address-data>", ""));
+    }
+
+    /** Part III, PROPERTIES: "with contents" (each its own, also where others have some). */
+    static void contentsBesideOthers() {
+        Talk talk = filled();
+        patch(talk, set("<D:displayname>n</D:displayname><C:addressbook-description>d</C:addressbook-description><R:readers>bob,cat</R:readers>"));
+        String data = "<C:address-data-type content-type=\"text/vcard\" version=\"%\"/>";
+        Talk.due("a BOOK", asked(talk, BOOK, "<C:supported-address-data/><D:sync-token/><C:max-resource-size/><D:displayname/><R:readers/>"
+            + "<C:addressbook-description/>"), both(BOOK, "<C:supported-address-data>" + data.replace("%", "3.0") + data.replace("%", "4.0")
+            + "</C:supported-address-data><D:sync-token>urn:x-sync:1-2</D:sync-token><C:max-resource-size>800</C:max-resource-size>"
+            + "<D:displayname>n</D:displayname><x:readers xmlns:x=\"urn:x-readers\">bob,cat</x:readers>"
+            + "<C:addressbook-description>d</C:addressbook-description>", ""));
+    }
+
     /** Part III, PROPERTIES: "C:addressbook-description b: as told; without it 404." */
     static void descriptions() {
         Talk talk = filled();
         Talk.due("not told", asked(talk, BOOK, NOTE), both(BOOK, "", NOTE));
-        patch(talk, set("<C:addressbook-description> a\n </C:addressbook-description>"));
-        Talk.due("as told", asked(talk, BOOK, NOTE), both(BOOK, "<C:addressbook-description> a\n </C:addressbook-description>", ""));
+        patch(talk, set("<C:addressbook-description> a\n\"&lt; </C:addressbook-description>"));
+        Talk.due("as told", asked(talk, BOOK, NOTE), both(BOOK, "<C:addressbook-description> a\n\"&lt; </C:addressbook-description>", ""));
         patch(talk, remove(NOTE));
         Talk.due("removed", asked(talk, BOOK, NOTE), both(BOOK, "", NOTE));
     }
@@ -313,7 +345,7 @@ public final class EdgePropertyTest {
     /** Part III, PROPFIND: "an other text than '0', '1', LIKE 'infinity': 400". */
     static void otherDepths() {
         Talk talk = filled();
-        for (String depth : new String[] {"", "2", "-1", "00", "01", "10", "0,1", "1, noroot", "infinit", "infinityy", "x"}) {
+        for (String depth : new String[] {"", "2", "-1", "00", "01", "10", "0,1", "1, noroot", "infinit", "infinityy", "xnfinity", "x"}) {
             Talk.due("Depth: " + depth, find(talk, "ann", "/", depth, ""), WRONG);
         }
     }
@@ -563,6 +595,9 @@ public final class EdgePropertyTest {
             Talk.due("remove " + name + " again", patch(talk, remove("<" + name + "/>")), may ? done(told) : refused(told, ""));
         }
         Talk.due("removed whatever stands in it", patch(talk, remove(LONG_NAME + "<R:readers>ann</R:readers>")), done(NAME + READERS));
+        readers(talk, "cat", "cat");
+        patch(talk, remove("<R:readers>bob</R:readers>"));
+        Talk.due("readers removed whatever stands there", asked(talk, BOOK, "<R:readers/>"), both(BOOK, READERS, ""));
         Talk.due("of other namespaces", patch(talk, set("<C:displayname/><D:addressbook-description/><readers/>")),
             refused("<C:displayname/><D:addressbook-description/><readers/>", ""));
     }

@@ -67,7 +67,7 @@ public final class EdgeReportTest {
         String all = Talk.multi(shown("c1", "c2", "c3"));
         String[][] rows = {{"", Talk.multi("")}, {"Depth: 0\r\n", Talk.multi("")}, {"Depth: 1\r\n", all}, {"Depth: infinity\r\n", all},
             {"Depth: INFINITY\r\n", all}, {"Depth:\r\n", WRONG}, {"Depth: 2\r\n", WRONG}, {"Depth: 01\r\n", WRONG}, {"Depth: -1\r\n", WRONG},
-            {"Depth: infinit\r\n", WRONG}, {"Depth: 1,1\r\n", WRONG}};
+            {"Depth: infinit\r\n", WRONG}, {"Depth: xnfinity\r\n", WRONG}, {"Depth: 1,1\r\n", WRONG}};
         for (String[] row : rows) {
             Talk.due("query with " + row[0], report(talk, row[0], "C:addressbook-query", "<C:filter/>"), row[1]);
             Talk.due("multiget with " + row[0], report(talk, row[0], "C:addressbook-multiget", "<D:href>" + BOOK + "c1</D:href>"),
@@ -126,7 +126,7 @@ public final class EdgeReportTest {
         Talk talk = filled();
         String unsupported = Talk.error("<C:supported-address-data/>");
         for (String attributes : new String[] {"version=''", "version='3'", "version='3.00'", "version=' 3.0'", "version='2.1'", "version='5.0'",
-            "content-type=''", "content-type='text/x-vcard'", "content-type='text/vcard;'", "content-type='text/vcard ' version='3.0'",
+            "content-type=''", "content-type='xext/vcard'", "content-type='text/x-vcard'", "content-type='text/vcard;'", "content-type='text/vcard ' version='3.0'",
             "content-type='text/vcard' version='x'", "content-type='x' version='4.0'"}) {
             Talk.due(attributes, data(talk, "<C:address-data " + attributes + "/>"), unsupported);
         }
@@ -146,6 +146,10 @@ public final class EdgeReportTest {
         Talk.due("as it is", data(talk, "<C:address-data/>"), CARDS[0]);
         Talk.due("its own", data(talk, "<C:address-data version='4.0'/>"), CARDS[0]);
         Talk.due("the other one", data(talk, "<C:address-data version='3.0'/>"), three);
+        Talk.due("beside another property", multiget(talk, "<D:prop><C:address-data/><D:current-user-privilege-set/><D:owner/></D:prop><D:href>" + BOOK
+            + "c3</D:href>"), Talk.multi(Talk.found(BOOK + "c3", "<C:address-data>" + CARDS[2] + "</C:address-data><D:current-user-privilege-set>"
+            + "<D:privilege><D:read/></D:privilege><D:privilege><D:write/></D:privilege></D:current-user-privilege-set>"
+            + "<D:owner><D:href>/p/ann/</D:href></D:owner>")));
     }
 
     private static String picked(Talk talk, String children) {
@@ -163,6 +167,8 @@ public final class EdgeReportTest {
         Talk.due("of an empty group", picked(talk, "<C:prop name='.TEL'/>"), Talk.card4(""));
         Talk.due("of another group", picked(talk, "<C:prop name='hom.TEL'/>"), Talk.card4(""));
         Talk.due("no such NAME", picked(talk, "<C:prop name='TE'/><C:prop name='TELL'/><C:prop name=''/><C:prop name='home.'/>"), Talk.card4(""));
+        Talk.due("other children pick nothing", picked(talk, "<C:prop name='FN'/><D:prop name='UID'/><C:x name='UID'/><C:x><C:prop name='UID'/></C:x>"),
+            Talk.card4("FN:Ann\r\n"));
         Talk.due("of the card as it is turned", data(talk, "<C:address-data version='3.0'><C:prop name='N'/></C:address-data>"),
             Talk.card3("N:Ann;;;;\r\n"));
     }
@@ -175,6 +181,8 @@ public final class EdgeReportTest {
         Talk.due("C:allprop alone", picked(talk, "<C:allprop/>"), CARDS[0]);
         Talk.due("C:allprop behind", picked(talk, "<C:prop name='FN'/><C:allprop/>"), CARDS[0]);
         Talk.due("C:allprop ahead", picked(talk, "<C:allprop/><C:prop name='FN'/>"), CARDS[0]);
+        picked(talk, "<C:prop name='FN'/>");
+        Talk.due("nothing is picked for a turn behind it", talk.turn(0, CARDS[0]), CARDS[0]);
         Talk.due("D:allprop is another", picked(talk, "<C:prop name='FN'/><D:allprop/>"), Talk.card4("FN:Ann\r\n"));
     }
 
@@ -191,7 +199,7 @@ public final class EdgeReportTest {
         Talk.due("yes", picked(talk, "<C:prop name='TEL' novalue='yes'/>"),
             Talk.card4("home.TEL;TYPE=cell,\"a,B\":\r\nTEL;PREF=1:\r\nwork.TEL:\r\n"));
         Talk.due("LIKE", picked(talk, "<C:prop name='FN' novalue='YeS'/>"), Talk.card4("FN:\r\n"));
-        for (String other : new String[] {"no", "", "yess", "ye", " yes", "true"}) {
+        for (String other : new String[] {"no", "", "yess", "ye", "xes", " yes", "true"}) {
             Talk.due(other, picked(talk, "<C:prop name='FN' novalue='" + other + "'/>"), Talk.card4("FN:Ann\r\n"));
         }
         Talk.due("the first names it", picked(talk, "<C:prop name='FN'/><C:prop name='FN' novalue='yes'/>"), Talk.card4("FN:Ann\r\n"));
@@ -259,6 +267,9 @@ public final class EdgeReportTest {
             due += there ? shown(name) : Talk.told(BOOK + name, "404 Not Found");
         }
         Talk.due("hrefs", multiget(talk, inner), Talk.multi(due));
+        Talk.due("each ends where it ends", multiget(talk, "<D:href>" + BOOK + "c%</D:href><D:href>31</D:href><D:href>" + BOOK + "c%3</D:href><D:href>1</D:href>"),
+            Talk.multi(Talk.told(BOOK + "c%", "404 Not Found") + Talk.told("31", "404 Not Found") + Talk.told(BOOK + "c%3", "404 Not Found")
+            + Talk.told("1", "404 Not Found")));
         Talk.due("not by %", multiget(talk, "<D:href>" + BOOK + "%639</D:href>"), Talk.multi(Talk.told(BOOK + "%639", "404 Not Found")));
     }
 
@@ -444,6 +455,22 @@ public final class EdgeReportTest {
         fits(talk, prop("TEL", match("match-type='equals'", "9") + param("PREF", "")), "c1");
         fits(talk, prop("TEL", match("match-type='equals'", "9") + param("X", "")), "");
         fits(talk, prop("NOTE", match("", "")), "c2 c3");
+        fits(talk, prop("FN", match("", "zzz") + match("match-type='equals'", "ann")), "c1");
+        fits(talk, prop("FN", match("", "zzz")) + "<C:prop-filter name='UID' test='allof'>" + match("", "u1") + "</C:prop-filter>", "c1");
+        fits(talk, "<C:filter test='allof'>" + prop("FN", match("", "n") + match("", "b")) + prop("UID", match("", "2") + match("", "3"))
+            + "</C:filter>", "c2");
+    }
+
+    /** Part III, QUERY: "RESPONSES for the CARDS (with Depth 0: none) that fit" (again and again, each filter alone). */
+    static void manyFilters() {
+        Talk talk = filled();
+        String many = "";
+        for (int i = 0; i < 30; i++) {
+            many += prop("FN", match("", "none such"));
+        }
+        for (int round = 0; round < 20; round++) {
+            fits(talk, many + prop("FN", match("", "ann")), "c1");
+        }
     }
 
     /** Part III, PARAM-FILTER: "child C:is-not-defined: fits if the property does not have the parameter; otherwise if it has it". */
@@ -459,6 +486,9 @@ public final class EdgeReportTest {
         fits(talk, prop("X", param("TYPE", "<C:is-not-defined/>")), "");
         fits(talk, prop("home.TEL", param("TYPE", match("", "zzz") + "<C:is-not-defined/>")), "");
         fits(talk, prop("home.TEL", param("PREF", match("", "zzz") + "<C:is-not-defined/>")), "c1");
+        fits(talk, prop("home.TEL", param("TYPE", match("", "cell") + "<C:is-not-defined/>")), "");
+        fits(talk, prop("home.TEL", param("TYPE", "")), "c1");
+        fits(talk, prop("home.TEL", param("PREF", "")), "");
     }
 
     /** Part III, PARAM-FILTER: "with a child C:text-match (the first one; others are not looked at), one of its values fits". */
@@ -518,8 +548,10 @@ public final class EdgeReportTest {
     /** Part III, TEXT-MATCH: "its texts are looked for in the MEANING of a value (Part IV)". */
     static void meanings() {
         Talk talk = filled();
-        talk.put(BOOK + "c1", Talk.card4("FN:a\\,b\\;c\\\\d\\ne\r\nUID:u1\r\nNICKNAME:a\\,b,c\r\nORG:x\\;y;z,w\r\nURL:a\\,b\r\nX-Y:\\n\r\n"));
-        String[][] rows = {{"FN", "a,b;c\\d\ne"}, {"NICKNAME", "a,b,c"}, {"ORG", "x;y;z,w"}, {"URL", "a\\,b"}, {"X-Y", "\\n"}};
+        talk.put(BOOK + "c1", Talk.card4("FN:a\\,b\\;c\\\\d\\ne\r\nUID:u1\r\nNICKNAME:a\\,b,c\r\nORG:x\\;y;z,w\r\nURL:a\\,b\r\nX-Y:\\n\r\n"
+            + "N:a\\,b;c\\;d,e\\N;;;\r\nGENDER:M;\\,\r\nTZ:\\N\r\n"));
+        String[][] rows = {{"FN", "a,b;c\\d\ne"}, {"NICKNAME", "a,b,c"}, {"ORG", "x;y;z,w"}, {"URL", "a\\,b"}, {"X-Y", "\\n"},
+            {"N", "a,b;c;d,e\n;;;"}, {"GENDER", "M;,"}, {"TZ", "\n"}};
         for (String[] row : rows) {
             fits(talk, prop(row[0], match("match-type='equals'", row[1])), "c1");
         }
@@ -541,6 +573,9 @@ public final class EdgeReportTest {
             fits(talk, prop("FN", match("match-type='equals'", "" + (char) (row[0] + 80))), row[1] == row[0] + 80 ? "c1" : "");
             fits(talk, prop("FN", match("match-type='equals' collation='i;ascii-casemap'", "" + (char) (row[0] + 32))), "");
         }
+        talk.put(BOOK + "c1", Talk.plain("u1", "\u03b1\u0430"));
+        fits(talk, prop("FN", match("", "\u03f1")), "");
+        fits(talk, prop("FN", match("", "\u0470")), "");
     }
 
     /** Terms: "Where it says LIKE, letters of texts are compared without their case (A .. Z as a .. z)." (the bytes beside the letters) */
@@ -552,6 +587,10 @@ public final class EdgeReportTest {
         fits(talk, prop("FN", match("match-type='equals'", "@az{")), "");
         fits(talk, prop("FN", match("match-type='equals' collation='i;ascii-casemap'", "@Az[")), "c1");
         fits(talk, prop("FN", match("match-type='equals' collation='i;ascii-casemap'", "`Az{")), "");
+        talk.put(BOOK + "c1", Talk.card4("FN:A\r\nUID:u1\r\nAZ.AZ-;AZ-=b:c\r\n"));
+        fits(talk, prop("az.az-", param("az-", "")), "c1");
+        fits(talk, prop("az&#13;", ""), "");
+        fits(talk, prop("az-", param("az&#13;", "")), "");
     }
 
     private static String changes(Talk talk, String token, String more) {
@@ -666,7 +705,11 @@ public final class EdgeReportTest {
         Talk.due("deleted again", changes(talk, "urn:x-sync:1-4", ""), told(gone("c1"), "7"));
         talk.put(BOOK + "c9", Talk.plain("u9", "A"));
         talk.ann("DELETE " + BOOK + "c9");
-        Talk.due("made and deleted behind the change", changes(talk, "urn:x-sync:1-7", ""), told(gone("c9"), "9"));
+        String longest = "d".repeat(20);
+        talk.put(BOOK + longest, Talk.plain("u8", "A"));
+        talk.ann("DELETE " + BOOK + longest);
+        Talk.due("a name of 20 letters", changes(talk, "urn:x-sync:1-9", ""), told(gone(longest), "11"));
+        Talk.due("made and deleted behind the change", changes(talk, "urn:x-sync:1-7", ""), told(gone("c9") + gone(longest), "11"));
     }
 
     /** Part III, SYNC: "with a limit only so many, and then the 507 as above" and "of now, or, when there were more, of the last one's change". */

@@ -72,6 +72,15 @@ public final class EdgeTurnTest {
                 written(room + "y".repeat(over) + characters[i], room + "y".repeat(over) + "\r\n " + characters[i]);
             }
         }
+        // The first and the last characters of 1, 2, 3 and 4 bytes.
+        String[][] edges = {{"~"}, {"\u0080", "\u07ff"}, {"\u0800", "\uffff"}, {"\ud800\udc00", "\udbff\udfff"}};
+        for (int i = 0; i < 4; i++) {
+            for (String edge : edges[i]) {
+                String room = start + "y".repeat(5 - i);
+                written(room + edge + edge, room + edge + "\r\n " + edge);
+                written(room + "y" + edge, room + "y\r\n " + edge);
+            }
+        }
         written(start + "y".repeat(5) + ",", start + "y".repeat(5) + "\\\r\n ,");
     }
 
@@ -185,6 +194,7 @@ public final class EdgeTurnTest {
     /** Part IV, to 4.0: "LABEL: ADR with a parameter LABEL behind the others (its text; not if it has one), and the value ;;;;;; ." */
     static void upLabel() {
         up("LABEL:", "ADR;LABEL=:;;;;;;");
+        up("LABEL:a\\Nb\\n", "ADR;LABEL=a^nb^n:;;;;;;");
         up("g.LABEL;A=b;TYPE=HOME:a\\,b\\n\"^", "g.ADR;A=b;TYPE=home;LABEL=\"a,b^n^'^^\":;;;;;;");
         up("LABEL;LABEL=x;A=b:y", "ADR;LABEL=x;A=b:;;;;;;");
         up("LABEL:a\r\nADR;LABEL=q:r\r\nLABEL:b", "ADR;LABEL=a:;;;;;;\r\nADR;LABEL=q:r\r\nADR;LABEL=b:;;;;;;");
@@ -283,7 +293,7 @@ public final class EdgeTurnTest {
     static void downOtherUris() {
         for (String name : "PHOTO LOGO SOUND KEY".split(" ")) {
             for (String uri : new String[] {"x", "data:;base64,AAAA", "data:image/png,AAAA", "data:image/png;base64", "data:image/png;base64,A",
-                "data:image/png;base64,AB==", "data:image/png;base64,A-_A", "data:im_age/png;base64,AAAA", "data:a;b=c;base64,AAAA",
+                "data:image/png;base64,AB==", "data:image/png;base64,A-_A", "data:im_age/png;base64,AAAA", "data:_;base64,AAAA", "data:a_;base64,AAAA", "data:a;b=c;base64,AAAA",
                 "DATA:image/png;base64,AAAA", "data:image/png;BASE64,AAAA", "xdata:image/png;base64,AAAA"}) {
                 down(name + ":" + uri, name + ";VALUE=uri:" + uri);
             }
@@ -320,6 +330,7 @@ public final class EdgeTurnTest {
     /** Part IV, to 3.0: "Without N: one comes behind the first FN, FN's text and four empty parts." */
     static void downWithoutN() {
         String[][] rows = {{"FN:A\r\nUID:u\r\n", "FN:A\r\nN:A;;;;\r\nUID:u\r\n"}, {"FN:\r\nUID:u\r\n", "FN:\r\nN:;;;;\r\nUID:u\r\n"},
+            {"FN:a\\Nb\r\nUID:u\r\n", "FN:a\\nb\r\nN:a\\nb;;;;\r\nUID:u\r\n"},
             {"UID:u\r\ng.FN;TYPE=a:A,\\;\\n\\\\\r\nFN:B\r\n", "UID:u\r\ng.FN;TYPE=A:A\\,\\;\\n\\\\\r\nN:A\\,\\;\\n\\\\;;;;\r\nX-FN:B\r\n"}};
         for (String[] row : rows) {
             Talk.due(row[0], TALK.turn(3, Talk.card4(row[0])), Talk.card3(row[1]));

@@ -243,6 +243,10 @@ public final class EdgeWireTest {
             closes(name + " twice", end + name + ": 0\r\n" + name + ": 0\r\n\r\n", BAD);
             closes(name + " twice LIKE", end + name.toUpperCase() + ":\r\nX: y\r\n" + name.toLowerCase() + ":\r\n\r\n", BAD);
         }
+        Talk talk = Talk.begun();
+        talk.come(options("Depth: 0\r\nDepth: 0\r\n"));
+        talk.house.open();
+        Talk.due("that is over with the connection", talk.come(options("Depth: 0\r\n")), OK);
         goes("other headers twice", options("Date: 1\r\nDate: 1\r\nX: 1\r\nX: 1\r\n"));
     }
 
@@ -255,7 +259,7 @@ public final class EdgeWireTest {
 
     /** Part I: "a Transfer-Encoding not LIKE 'chunked': 501". */
     static void otherEncodings() {
-        for (String value : new String[] {"", "gzip", "chunke", "chunkedx", "chunked, gzip", "gzip, chunked", "chunked;"}) {
+        for (String value : new String[] {"", "gzip", "chunke", "chunkedx", "xhunked", "chunked, gzip", "gzip, chunked", "chunked;"}) {
             closes("Transfer-Encoding: " + value, options("Transfer-Encoding: " + value + "\r\n"), "501 Not Implemented");
         }
         goes("LIKE", options("Transfer-Encoding: cHUNKED\r\n") + "0\r\n\r\n");
@@ -264,11 +268,12 @@ public final class EdgeWireTest {
     /** Part I: "a Content-Length that is not 1 to 9 digits: 400". */
     static void lengthDigits() {
         for (String value : new String[] {"", "0000000000", "1234567890", "a", "1a", "-1", "+1", "1 1", "0x1", "1.", "/", ":",
-            "123456789a"}) {
+            "123456789a", "00000000a", "a00000000"}) {
             closes("Content-Length: " + value, options("Content-Length: " + value + "\r\n"), BAD);
         }
         goes("1 digit", options("Content-Length: 0\r\n"));
-        goes("9 digits", options("Content-Length: 000000001\r\n") + "x");
+        Talk talk = Talk.begun();
+        Talk.due("9 digits", talk.come(options("Content-Length: 000000012\r\n") + "x".repeat(12) + options("")), OK + OK);
     }
 
     /** Part I: "one above 3000: 413". */
@@ -293,6 +298,9 @@ public final class EdgeWireTest {
         goes("4 digits", options(CHUNKED) + "0001\r\nx\r\n0\r\n\r\n");
         goes("either case", options(CHUNKED) + "a\r\n0123456789\r\nF\r\n0123456789abcde\r\nAb\r\n" + "x".repeat(0xAB)
             + "\r\n0\r\n\r\n");
+        Talk talk = Talk.begun();
+        String two = options(CHUNKED) + "0001\r\nx\r\n0000\r\n\r\n";
+        Talk.due("the next ones are counted anew", talk.come(options("Content-Length: 7\r\n") + "x".repeat(7) + two + two), OK + OK + OK);
         goes("CRLF in a chunk", options(CHUNKED) + "4\r\n\r\n\r\n\r\n0\r\n\r\n");
         waits("one byte less", options(CHUNKED) + "3\r\nab");
     }
@@ -378,7 +386,7 @@ public final class EdgeWireTest {
             Talk.due(row[0] + " says close", answer.contains("\r\nConnection: close\r\n\r\n"), true);
             Talk.due(row[0] + ": open", talk.house.isOpen(0), false);
         }
-        for (String value : new String[] {"", "closed", "clos", "close, x", "keep-alive"}) {
+        for (String value : new String[] {"", "closed", "clos", "xlose", "close, x", "keep-alive"}) {
             goes("Connection: " + value, options("Connection: " + value + "\r\n"));
         }
     }

@@ -32,6 +32,7 @@ public final class EdgeXmlTest {
         Talk talk = Talk.begun();
         for (String body : bodies) {
             Talk.due("no XML " + body, status(talk, body), 400);
+            Talk.due("XML behind " + body, status(talk, ALL), 207);
         }
     }
 
@@ -68,7 +69,7 @@ public final class EdgeXmlTest {
     static void utf8() {
         right(inside("\u00c2\u0080", "\u00df\u00bf", "\u00e0\u00a0\u0080", "\u00ed\u009f\u00bf", "\u00ee\u0080\u0080", "\u00ef\u00bf\u00bd",
             "\u00f0\u0090\u0080\u0080", "\u00f4\u008f\u00bf\u00bf"));
-        wrong(inside("\u0080", "\u00bf", "\u00c0\u0080", "\u00c1\u00bf", "\u00c2", "\u00c2A", "\u00c2\u00c0", "\u00e0\u009f\u00bf", "\u00e0\u00a0",
+        wrong(inside("\u0080", "\u00bf", "\u00c0\u0080", "\u00c1\u00bf", "\u00c2", "\u00c2A", "\u00c2\u00c0", "\u00c2\u007f", "\u00e0\u009f\u00bf", "\u00e0\u00a0",
             "\u00ed\u00a0\u0080", "\u00ed\u00bf\u00bf", "\u00ef\u00bf\u00be", "\u00ef\u00bf\u00bf", "\u00f0\u008f\u00bf\u00bf",
             "\u00f0\u0090\u0080", "\u00f4\u0090\u0080\u0080", "\u00f5\u0080\u0080\u0080", "\u00fe", "\u00ff"));
         wrong("<!-- \u00ff -->" + ALL, ALL + "<!--\u00ef\u00bf\u00be-->", "<?xml \u0080?>" + ALL, OPEN + "<allprop a='\u00c0\u0080'/></propfind>",
@@ -88,6 +89,7 @@ public final class EdgeXmlTest {
             }
         }
         right(inside(" ", "\u007f"));
+        wrong(inside("\u007f\u0001", "\u007f\u0080"));
     }
 
     /** Part V: "At the beginning perhaps '<?xml', S, bytes without '?>', '?>'." */
@@ -109,7 +111,7 @@ public final class EdgeXmlTest {
     /** Part V: "comments '<!--' bytes without '--' '-->'". */
     static void comments() {
         right("<!---->" + ALL, "<!-- - -->" + ALL, "<!--> -->" + ALL, "<!--<a>&x;-->" + ALL, "<!-- ]]> -->" + ALL);
-        wrong("<!-- -- -->" + ALL, "<!-- --" + ALL, "<!--" + ALL, "<!-->" + ALL, "<!- -->" + ALL, "<!----->-->" + ALL, "<!-- -- >" + ALL,
+        wrong("<!-- -- -->" + ALL, "<!-- ---->" + ALL, "<!--->" + ALL, "<!-- --" + ALL, "<!--" + ALL, "<!-->" + ALL, "<!- -->" + ALL, "<!----->-->" + ALL, "<!-- -- >" + ALL,
             "<!-- --x-->" + ALL, "< !-- -->" + ALL);
         right(inside("<!---->", "a<!-- - -->b"));
         wrong(inside("<!-- -- -->", "<!-- --", "<!--"));
@@ -120,6 +122,10 @@ public final class EdgeXmlTest {
     static void oneElement() {
         wrong(ALL + ALL, ALL + "<a/>", "<!-- -->", " ", "<?xml ?> ");
         right(ALL);
+        Talk talk = Talk.begun();
+        talk.ann("MKCOL /a/ann/b1");
+        Talk.due("another root alone", talk.status("ann", "REPORT /a/ann/b1", "", "<a/>"), 403);
+        Talk.due("two of them", talk.status("ann", "REPORT /a/ann/b1", "", "<a/><b/>"), 400);
     }
 
     /** Part V: "ELEMENT: '<' name, attributes, BLANKS, '/>' or '>' contents '</' the same name BLANKS '>'." */
@@ -136,7 +142,7 @@ public final class EdgeXmlTest {
         right(inside("<a b=''/>", "<a b=\"\"/>", "<a  b='1'/>", "<a\tb='1'\nc='2'/>", "<a b \r\n=\t 'x'/>", "<a b='\"'/>", "<a b=\"'\"/>", "<a b='>'/>",
             "<a b='/>'/>", "<a b='x' ></a>", "<a b=']]>'/>"));
         wrong(inside("<ab='1'/>", "<a b/>", "<a b=/>", "<a b=1/>", "<a b='/>", "<a b='\"/>", "<a b='<'/>", "<a b='1'c='2'/>", "<a ='1'/>", "<a b=='1'/>",
-            "<a 'b'='1'/>", "<a b='1/>", "<a b=`1`/>", "<a b='1' '/>", "<a/b='1'>", "<a></a b='1'>"));
+            "<a 'b'='1'/>", "<a b='1/>", "<a b=`1`/>", "<a b+'1'/>", "<a b'1'/>", "<a b '1'/>", "<a b='1' '/>", "<a/b='1'>", "<a></a b='1'>"));
     }
 
     /** Part V: "Contents: texts, ELEMENTS, comments, '<![CDATA[' bytes without ']]>' ']]>'." */
@@ -183,6 +189,8 @@ public final class EdgeXmlTest {
             means("&#" + number + ";", "400");
             wrong(inside("<a b='&#" + number + ";'/>"));
         }
+        told("<p:a xmlns:p='&#xe9;&#x20ac;&#x10000;'/>", "<x:a xmlns:x=\"\u00e9\u20ac\ud800\udc00\"/>");
+        told("<p:a xmlns:p='\u00e9\u20ac\ud800\udc00'/>", "<x:a xmlns:x=\"\u00e9\u20ac\ud800\udc00\"/>");
     }
 
     /** Part V: "a BLANK in a value means 32". */
@@ -197,7 +205,8 @@ public final class EdgeXmlTest {
             "<" + "n".repeat(500) + "/>"));
         wrong(inside("<1/>", "<-a/>", "<.a/>", "<:a xmlns:a='u'/>", "<a:/>", "<p:/>", "<p:1 xmlns:p='u'/>", "<p:-a xmlns:p='u'/>", "<p::a xmlns:p='u'/>",
             "<p:a:b xmlns:p='u' xmlns:a='u'/>", "<a@/>", "<a[/>", "<a`/>", "<a{/>", "<a$/>", "<\u00c3\u00a4/>", "<a 1b=''/>", "<a -b=''/>", "<a b:=''/>",
-            "<a :b=''/>", "<a b\u00c3\u00a4=''/>"));
+            "<a :b=''/>", "<a b\u00c3\u00a4=''/>", "<p: xmlns:p='u'/>",
+            "<a p:='' xmlns:p='u'/>"));
     }
 
     /** Part V: "At most 20 ELEMENTS within one another". */
@@ -229,12 +238,34 @@ public final class EdgeXmlTest {
         wrong(inside("<a" + spaces + " p8:b='' c=''/>"));
     }
 
+    /** Part V: "At most 20 ELEMENTS within one another, 200 in all, 10 attributes each." (again and again, each body alone) */
+    static void manyBodies() {
+        String body = "";
+        for (int i = 0; i < 30; i++) {
+            body += "<a" + i + " xmlns='u" + i + "' xmlns:p='v" + i + "' b='' c='' d='' p:e=''/>";
+        }
+        Talk talk = Talk.begun();
+        String asked = "";
+        String due = "";
+        for (int i = 0; i < 20; i++) {
+            asked += "<a xmlns='u" + i + "'/>";
+            due += "<x:a xmlns:x=\"u" + i + "\"/>";
+        }
+        for (int round = 0; round < 40; round++) {
+            Talk.due("body " + round, status(talk, inside(body)[0]), 207);
+            Talk.due("namespaces of body " + round, talk.ask("ann", "PROPFIND /", "Depth: 0\r\n", Talk.root("D:propfind", "<D:prop>" + asked
+                + "</D:prop>")), Talk.multi("<D:response><D:href>/</D:href>" + Talk.propstat("404 Not Found", due) + "</D:response>"));
+        }
+    }
+
     /** Part V, NAMESPACES: "xmlns and xmlns:p say them for the ELEMENT and what is in it". */
     static void whereSpacesHold() {
         told("<p:a xmlns:p='u'><p:b/></p:a>", "<x:a xmlns:x=\"u\"/>");
         told("<p:a xmlns:p='u'/><p:b/>", "400");
         told("<p:a xmlns:p='u'></p:a><p:b/>", "400");
         told("<a xmlns='u'/><b/>", "<x:a xmlns:x=\"u\"/><b/>");
+        told("<a xmlns='u'/><a xmlns='v'/><b xmlns='v'/><a xmlns='v'/><b xmlns='u'/>",
+            "<x:a xmlns:x=\"u\"/><x:a xmlns:x=\"v\"/><x:b xmlns:x=\"v\"/><x:b xmlns:x=\"u\"/>");
         told("<a p:b='' xmlns:p='u'/>", "<a/>");
         told("<D:a xmlns:D='u'><D:b xmlns:D='v'/></D:a><D:a/>", "<x:a xmlns:x=\"u\"/><D:a/>");
         right("<propfind xmlns='DAV:'><p:allprop xmlns:p='DAV:'/></propfind>", "<p:propfind xmlns:p='DAV:'><allprop xmlns='DAV:'/></p:propfind>");
@@ -274,6 +305,11 @@ public final class EdgeXmlTest {
     static void prefixesAndAttributesTwice() {
         told("<p:a/>", "400");
         told("<a p:b=''/>", "400");
+        Talk talk = Talk.begun();
+        talk.ann("MKCOL /a/ann/b1");
+        Talk.due("a body that is none", talk.status("ann", "REPORT /a/ann/b1", "", "<a xmlns:p='u'>"), 400);
+        // In this one, p stands where it stood when it was said in the one before.
+        Talk.due("a prefix that only that one said", talk.status("ann", "REPORT /a/ann/b1", "", "<b>xxxxxxp<p:c/></b>"), 400);
         told("<xmlns:a/>", "400");
         told("<a b='' b=''/>", "400");
         told("<a b='1' c='' b='2'/>", "400");
@@ -284,6 +320,7 @@ public final class EdgeXmlTest {
         told("<a p:b='' q:b='' xmlns:p='u' xmlns:q='u'/>", "400");
         told("<a xmlns:p='u' xmlns:q='v' p:b='' q:b='' b=''/>", "<a/>");
         told("<a b='' B=''/>", "<a/>");
+        told("<a xmlns:b='u' b='' xmlns:c='v' c=''/>", "<a/>");
     }
 
     /** Part V, NAMESPACES: "Attributes without a prefix are of no namespace." */
