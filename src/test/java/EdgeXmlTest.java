@@ -245,13 +245,14 @@ public final class EdgeXmlTest {
             body += "<a" + i + " xmlns='u" + i + "' xmlns:p='v" + i + "' b='' c='' d='' p:e=''/>";
         }
         Talk talk = Talk.begun();
-        String asked = "";
-        String due = "";
-        for (int i = 0; i < 20; i++) {
-            asked += "<a xmlns='u" + i + "'/>";
-            due += "<x:a xmlns:x=\"u" + i + "\"/>";
-        }
         for (int round = 0; round < 40; round++) {
+            String asked = "";
+            String due = "";
+            for (int i = 0; i < 20; i++) {
+                String space = "u".repeat(round + 1) + i;
+                asked += "<a xmlns='" + space + "'/>";
+                due += "<x:a xmlns:x=\"" + space + "\"/>";
+            }
             Talk.due("body " + round, status(talk, inside(body)[0]), 207);
             Talk.due("namespaces of body " + round, talk.ask("ann", "PROPFIND /", "Depth: 0\r\n", Talk.root("D:propfind", "<D:prop>" + asked
                 + "</D:prop>")), Talk.multi("<D:response><D:href>/</D:href>" + Talk.propstat("404 Not Found", due) + "</D:response>"));
@@ -321,6 +322,7 @@ public final class EdgeXmlTest {
         told("<a xmlns:p='u' xmlns:q='v' p:b='' q:b='' b=''/>", "<a/>");
         told("<a b='' B=''/>", "<a/>");
         told("<a xmlns:b='u' b='' xmlns:c='v' c=''/>", "<a/>");
+        told("<a xml:p='' xmlns:p='u' p:p='' p=''/>", "<a/>");
     }
 
     /** Part V, NAMESPACES: "Attributes without a prefix are of no namespace." */
@@ -366,7 +368,7 @@ public final class EdgeXmlTest {
     static void wrongAtTheEnd() {
         Talk talk = Talk.begun();
         talk.ann("MKCOL /a/ann/b1");
-        String[] wrong = {"<p:a/>", "<a b='' b=''/>", "&x;", "]]>", "<a>", "<1/>", "<a xmlns:xml='u'/>"};
+        String[] wrong = {"<p:a/>", "<a b='' b=''/>", "&x;", "]]>", "<a>", "<1/>", "<a xmlns:xml='u'/>", "\u0001"};
         for (String text : wrong) {
             wrong(inside(text));
             Talk.due("ahead of another root " + text, talk.status("ann", "REPORT /a/ann/b1", "", "<a>" + text + "</a>"), 400);
@@ -391,6 +393,7 @@ public final class EdgeXmlTest {
         String most = OPEN + "<allprop/>" + "x".repeat(3000 - ALL.length()) + "</propfind>";
         Talk.due("3000 bytes", most.length(), 3000);
         right(most);
+        right(inside("<a a='' b='' c='' d='' e='' f='' g='' h='' i='' j=''/>".repeat(54)));
         right(inside("<a b='" + "x".repeat(2900) + "'/>", "<![CDATA[" + "x".repeat(2900) + "]]>", "<" + "y".repeat(2900) + "/>"));
     }
 }
