@@ -6,7 +6,7 @@ public final class EdgeFaceTest {
         Talk.all(EdgeFaceTest.class);
     }
 
-    private static boolean outThrows(AddressHouse house, int i) {
+    private static boolean outThrows(Run house, int i) {
         try {
             house.outAt(i);
             return false;
@@ -15,7 +15,7 @@ public final class EdgeFaceTest {
         }
     }
 
-    private static boolean comeThrows(AddressHouse house, int c) {
+    private static boolean comeThrows(Run house, int c) {
         try {
             house.come(c);
             return false;
@@ -25,7 +25,7 @@ public final class EdgeFaceTest {
     }
 
     /** Feeds so many times twenty bytes of one value. */
-    private static void feed(AddressHouse house, int times, int four) {
+    private static void feed(Run house, int times, int four) {
         for (int i = 0; i < times; i++) {
             house.feed(four, four, four, four, four);
         }
@@ -53,7 +53,7 @@ public final class EdgeFaceTest {
 
     /** Promise 1: "No users, no connections, nothing in the house" (no connections). */
     static void noConnectionsAtFirst() {
-        AddressHouse house = new AddressHouse();
+        Run house = new Run();
         for (int c = 0; c < 4; c++) {
             Talk.due("isOpen " + c, house.isOpen(c), false);
             Talk.due("shut " + c, house.shut(c), false);
@@ -64,7 +64,7 @@ public final class EdgeFaceTest {
 
     /** Promise 1: "No users, no connections, nothing in the house" (nothing in the house). */
     static void nothingAtFirst() {
-        AddressHouse house = new AddressHouse();
+        Run house = new Run();
         Talk.due("BOOKS", house.count(0), 0);
         Talk.due("CARDS", house.count(1), 0);
         Talk.due("CHANGES", house.count(2), 0);
@@ -72,7 +72,7 @@ public final class EdgeFaceTest {
 
     /** Promise 1: "the tape and the OUT are empty" (the tape). */
     static void anEmptyTapeAtFirst() {
-        AddressHouse house = new AddressHouse();
+        Run house = new Run();
         Talk.due("it has 0 bytes", house.end(0), true);
         Talk.due("it has not 1", house.end(1), false);
         Talk.due("no user", house.user(), -1);
@@ -83,7 +83,7 @@ public final class EdgeFaceTest {
 
     /** Promise 1: "the tape and the OUT are empty" (the OUT). */
     static void anEmptyOutAtFirst() {
-        AddressHouse house = new AddressHouse();
+        Run house = new Run();
         Talk.due("out", house.out(), 0);
         Talk.due("outAt 0 throws", outThrows(house, 0), true);
     }
@@ -128,7 +128,7 @@ public final class EdgeFaceTest {
 
     /** Promise 2: "false, changing nothing, when it would have more than 6000" (just full). */
     static void theTapeFull() {
-        AddressHouse house = new AddressHouse();
+        Run house = new Run();
         for (int i = 1; i <= 300; i++) {
             Talk.due("feed " + i, house.feed(0, 0, 0, 0, 0), true);
         }
@@ -141,7 +141,7 @@ public final class EdgeFaceTest {
     /** Promise 2: "false, changing nothing, when it would have more than 6000" (just below). */
     static void theTapeNearlyFull() {
         for (int left = 5979; left <= 5982; left++) {
-            AddressHouse house = new AddressHouse();
+            Run house = new Run();
             feed(house, 300, 0);
             house.end(left);
             Talk.due("feed behind " + left, house.feed(0, 0, 0, 0, 0), left <= 5980);
@@ -175,7 +175,7 @@ public final class EdgeFaceTest {
 
     /** Promise 3: "false, changing nothing, when it has not so many" (as many as there are, one more). */
     static void endAtAndBehind() {
-        AddressHouse house = new AddressHouse();
+        Run house = new Run();
         house.feed(0, 0, 0, 0, 0);
         Talk.due("one more", house.end(21), false);
         Talk.due("far more", house.end(Integer.MAX_VALUE), false);
@@ -189,7 +189,7 @@ public final class EdgeFaceTest {
 
     /** Promise 3: "false, changing nothing, when it has not so many, or n is below 0". */
     static void endBelowNone() {
-        AddressHouse house = new AddressHouse();
+        Run house = new Run();
         house.feed(0, 0, 0, 0, 0);
         Talk.due("-1", house.end(-1), false);
         Talk.due("the least", house.end(Integer.MIN_VALUE), false);
@@ -263,7 +263,7 @@ public final class EdgeFaceTest {
 
     /** Promise 5: "its number, the least of 0 .. 3 that is free". */
     static void theLeastFree() {
-        AddressHouse house = new AddressHouse();
+        Run house = new Run();
         for (int c = 0; c < 4; c++) {
             Talk.due("open", house.open(), c);
         }
@@ -277,7 +277,7 @@ public final class EdgeFaceTest {
 
     /** Promise 5: "NONE when none is". */
     static void allTaken() {
-        AddressHouse house = new AddressHouse();
+        Run house = new Run();
         for (int c = 0; c < 4; c++) {
             house.open();
         }
@@ -390,7 +390,7 @@ public final class EdgeFaceTest {
 
     /** Promise 7: "Whether a connection is open." (numbers that are none's) */
     static void isOpenOfAnyNumber() {
-        AddressHouse house = new AddressHouse();
+        Run house = new Run();
         house.open();
         Talk.due("0", house.isOpen(0), true);
         for (int c : new int[] {-1, 1, 4, Integer.MIN_VALUE, Integer.MAX_VALUE}) {
@@ -402,7 +402,7 @@ public final class EdgeFaceTest {
 
     /** Promise 8: "A connection that is open is shut: true; false for others." */
     static void shutOnce() {
-        AddressHouse house = new AddressHouse();
+        Run house = new Run();
         house.open();
         house.open();
         for (int c : new int[] {-1, 2, 4, Integer.MIN_VALUE, Integer.MAX_VALUE}) {
@@ -527,7 +527,7 @@ public final class EdgeFaceTest {
 
     /** Promise 12: "NONE for others." */
     static void countsOfOthers() {
-        AddressHouse house = new AddressHouse();
+        Run house = new Run();
         for (int what : new int[] {-1, 3, Integer.MIN_VALUE, Integer.MAX_VALUE}) {
             Talk.due("count " + what, house.count(what), -1);
         }

@@ -516,8 +516,8 @@ public final class EdgePropertyTest {
 
     /** Part III, PROPPATCH: "D:displayname, C:addressbook-description (texts up to 60 bytes". */
     static void patchTexts() {
-        Talk talk = filled();
         for (String name : new String[] {"D:displayname", "C:addressbook-description"}) {
+            Talk talk = filled();
             String[] right = {"", "x".repeat(60), "\u00e9".repeat(30), "\u20ac".repeat(20), "&amp;".repeat(60), "&#xe9;".repeat(30)};
             String[] wrong = {"x".repeat(61), "\u00e9".repeat(30) + "x", "\u20ac".repeat(20) + "x", "&amp;".repeat(61), " ".repeat(61)};
             for (String text : right) {
@@ -586,14 +586,15 @@ public final class EdgePropertyTest {
 
     /** Part III, PROPPATCH: "may be set and removed" (these three, and no others). */
     static void patchAllowed() {
-        Talk talk = filled();
         for (String name : NAMES) {
+            Talk talk = filled();
             boolean may = name.equals("D:displayname") || name.equals("C:addressbook-description") || name.equals("R:readers");
             String told = name.equals("R:readers") ? READERS : "<" + name + "/>";
             Talk.due("set " + name, patch(talk, set("<" + name + "/>")), may ? done(told) : refused(told, ""));
             Talk.due("remove " + name, patch(talk, remove("<" + name + "/>")), may ? done(told) : refused(told, ""));
             Talk.due("remove " + name + " again", patch(talk, remove("<" + name + "/>")), may ? done(told) : refused(told, ""));
         }
+        Talk talk = filled();
         Talk.due("removed whatever stands in it", patch(talk, remove(LONG_NAME + "<R:readers>ann</R:readers>")), done(NAME + READERS));
         readers(talk, "cat", "cat");
         patch(talk, remove("<R:readers>bob</R:readers>"));

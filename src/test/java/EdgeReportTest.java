@@ -734,28 +734,38 @@ public final class EdgeReportTest {
         Talk.due("none of none", changes(talk, "urn:x-sync:1-4", limit("D", "0")), told("", "4"));
     }
 
-    /** Part III, SYNC: "(A BOOK keeps in mind the names that were deleted and are not there, each with its latest change, the 20 latest ones; others are forgotten". */
+    /** The requests by which a CARD comes and goes. */
+    private static String comesAndGoes(String name) {
+        return Talk.request("ann", "PUT " + BOOK + name, "Content-Type: text/vcard\r\n", Talk.plain("u", "A"))
+            + Talk.request("ann", "DELETE " + BOOK + name, "", "");
+    }
+
+    /** Part III, SYNC: "(A BOOK keeps in mind the names that were deleted and are not there, each with its latest change". */
+    static void oneNameKeptOnce() {
+        Talk talk = Talk.begun();
+        talk.ann("MKCOL /a/ann/b1");
+        talk.come(comesAndGoes("d").repeat(22));
+        Talk.due("one name is kept once", changes(talk, "urn:x-sync:1-1", ""), told(gone("d"), "45"));
+    }
+
+    /** Part III, SYNC: "the 20 latest ones; others are forgotten". */
     static void keptInMind() {
         Talk talk = Talk.begun();
         talk.ann("MKCOL /a/ann/b1");
-        for (int round = 0; round < 25; round++) {
-            talk.put(BOOK + "d", Talk.plain("u", "A"));
-            talk.ann("DELETE " + BOOK + "d");
-        }
-        Talk.due("one name is kept once", changes(talk, "urn:x-sync:1-1", ""), told(gone("d"), "51"));
+        String all = comesAndGoes("d");
         for (int i = 0; i < 19; i++) {
-            talk.put(BOOK + "e" + i, Talk.plain("u", "A"));
-            talk.ann("DELETE " + BOOK + "e" + i);
+            all += comesAndGoes("e" + i);
         }
+        talk.come(all);
         Talk.due("20 names", Talk.statusOf(changes(talk, "urn:x-sync:1-1", "")), 207);
         talk.put(BOOK + "d", Talk.plain("u", "A"));
         talk.put(BOOK + "e19", Talk.plain("v", "A"));
         talk.ann("DELETE " + BOOK + "e19");
         Talk.due("a name that is there again is not kept", Talk.statusOf(changes(talk, "urn:x-sync:1-1", "")), 207);
         talk.ann("DELETE " + BOOK + "d");
-        Talk.due("the oldest one, of 53, is forgotten then", changes(talk, "urn:x-sync:1-52", ""), INVALID);
-        Talk.due("the 20 latest ones", Talk.statusOf(changes(talk, "urn:x-sync:1-53", "")), 207);
-        Talk.due("the latest one is the last", changes(talk, "urn:x-sync:1-91", ""), told(gone("e19") + gone("d"), "93"));
+        Talk.due("the oldest one, of 5, is forgotten then", changes(talk, "urn:x-sync:1-4", ""), INVALID);
+        Talk.due("the 20 latest ones", Talk.statusOf(changes(talk, "urn:x-sync:1-5", "")), 207);
+        Talk.due("the latest one is the last", changes(talk, "urn:x-sync:1-43", ""), told(gone("e19") + gone("d"), "45"));
     }
 
     /** Part III, SYNC: "a TOKEN that is told with a limit may be one too old already". */

@@ -12,7 +12,7 @@ public final class FaceTest {
         Talk.finish();
     }
 
-    private static boolean outThrows(AddressHouse house, int i) {
+    private static boolean outThrows(Run house, int i) {
         try {
             house.outAt(i);
             return false;
@@ -21,7 +21,7 @@ public final class FaceTest {
         }
     }
 
-    private static boolean comeThrows(AddressHouse house, int c) {
+    private static boolean comeThrows(Run house, int c) {
         try {
             house.come(c);
             return false;
@@ -31,7 +31,7 @@ public final class FaceTest {
     }
 
     private static void anew() {
-        AddressHouse house = new AddressHouse();
+        Run house = new Run();
         Talk.due("NONE", AddressHouse.NONE, -1);
         Talk.due("a new OUT", house.out(), 0);
         Talk.due("a new OUT's first byte", outThrows(house, 0), true);
@@ -48,7 +48,7 @@ public final class FaceTest {
     }
 
     private static void tape() {
-        AddressHouse house = new AddressHouse();
+        Run house = new Run();
         for (int i = 0; i < 300; i++) {
             Talk.due("feed " + i, house.feed(i, -1, Integer.MIN_VALUE, Integer.MAX_VALUE, 0), true);
         }
@@ -96,7 +96,7 @@ public final class FaceTest {
     }
 
     private static void connections() {
-        AddressHouse house = new AddressHouse();
+        Run house = new Run();
         for (int i = 0; i < 4; i++) {
             Talk.due("open " + i, house.open(), i);
         }

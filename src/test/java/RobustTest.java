@@ -8,35 +8,38 @@ public final class RobustTest {
         "<![CDATA[", "]]>", "&#x41;", "xmlns:", "xmlns='DAV:'", "<D:prop>", "</D:prop>", "<C:filter>", "<D:href>", "\t", " "};
 
     public static void main(String[] args) {
-        long calls = 0;
-        for (int seed = 0; seed < 400; seed++) {
-            calls += session(new Random(seed));
+        int rounds = 0;
+        for (int seed = 0; seed < 2000; seed++) {
+            rounds += session(new Random(seed));
         }
-        Talk.due("sessions", calls > 0, true);
+        Talk.due("many rounds", rounds > 10000, true);
         Talk.finish();
     }
 
-    private static long session(Random random) {
+    private static int session(Random random) {
         Talk talk = Talk.begun();
         talk.ann("MKCOL /a/ann/b1");
         talk.put("/a/ann/b1/c1", Talk.card4("FN:A\r\nUID:u\r\nTEL;TYPE=x,y:1\r\n"));
-        int calls = 0;
-        while (calls < 30) {
-            calls++;
+        int rounds = 0;
+        for (; talk.house.size() < 420; rounds++) {
             if (!talk.house.isOpen(0)) {
                 talk.house.open();
             }
-            byte[] bytes = broken(random, random.nextBoolean() ? report(random) : put(random));
             if (random.nextInt(4) == 0) {
-                talk.turn(random.nextInt(7) - 1, broken(random, Talk.card4("FN:A\r\nUID:u\r\nADR;LABEL=a:b\r\nREV:20000101T101010\r\n")));
+                talk.tape(broken(random, Talk.card4("FN:A\r\nUID:u\r\nADR;LABEL=a:b\r\nREV:20000101T101010\r\n")));
+                talk.house.turn(random.nextInt(7) - 1);
             } else {
-                talk.come(bytes);
+                talk.tape(broken(random, random.nextBoolean() ? report(random) : put(random)));
+                talk.house.come(0);
+            }
+            for (int i = Math.min(3, talk.house.out()); i > 0; i--) {
+                talk.house.outAt(random.nextInt(talk.house.out()));
             }
             talk.house.count(random.nextInt());
             talk.house.end(random.nextInt());
             talk.house.isOpen(random.nextInt());
         }
-        return calls;
+        return rounds;
     }
 
     private static String report(Random random) {

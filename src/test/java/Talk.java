@@ -13,7 +13,7 @@ final class Talk {
     private static int wrong = 0;
     private static String running = "";
 
-    final AddressHouse house = new AddressHouse();
+    final Run house = new Run();
 
     static void due(String what, Object got, Object want) {
         checked++;
@@ -91,21 +91,35 @@ final class Talk {
 
     /** What comes back on connection 0. */
     String come(String text) {
-        tape(text);
-        house.come(0);
-        return out();
+        return come(text.getBytes(StandardCharsets.UTF_8));
     }
 
     String come(byte[] bytes) {
+        int before = house.size();
         tape(bytes);
-        house.come(0);
+        boolean alone = house.come(0) == 1 && house.isOpen(0);
+        if (alone && onlyLooks(new String(bytes, StandardCharsets.ISO_8859_1))) {
+            house.lookedSince(before);
+        }
         return out();
+    }
+
+    private static boolean onlyLooks(String request) {
+        for (String method : new String[] {"OPTIONS ", "GET ", "HEAD ", "PROPFIND ", "REPORT "}) {
+            if (request.startsWith(method)) {
+                return true;
+            }
+        }
+        return false;
     }
 
     /** A card turned into a version; NONE when it is none. */
     String turn(int version, byte[] card) {
+        int before = house.size();
         tape(card);
-        return house.turn(version) == AddressHouse.NONE ? "NONE" : out();
+        boolean none = house.turn(version) == AddressHouse.NONE;
+        house.lookedSince(before);
+        return none ? "NONE" : out();
     }
 
     String turn(int version, String card) {
